@@ -218,7 +218,8 @@ public final class BundleLine {
     int before = givenFrames;
     for (int i = 0; i < n; i++) {
       time++;
-      layPieces();
+      layLostPieces();
+      layNewPieces();
       sendOnLines();
       takeWhatComes();
       restLines();
@@ -226,26 +227,18 @@ public final class BundleLine {
     return givenFrames - before;
   }
 
-  private void layPieces() {
-    if (layLostPieces()) {
-      layNewPieces();
-    }
-  }
-
-  /** Whether a line was free for each of them. */
-  private boolean layLostPieces() {
+  private void layLostPieces() {
     // The pieces of GIVEN frames are the lowest numbers, and all THERE.
     for (int i = givenPieces; i < firstNew && inState[LOST] > 0; i++) {
       Piece piece = pieceAt(i);
       if (piece != null && piece.state == LOST) {
         Line line = lineFor(piece);
         if (line == null) {
-          return false;
+          return;
         }
         layOn(line, i, piece);
       }
     }
-    return true;
   }
 
   private void layNewPieces() {

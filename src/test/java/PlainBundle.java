@@ -496,24 +496,39 @@ final class PlainBundle {
   }
 
   int status(int what) {
-    if (what >= 21 && what <= 26) return refusals[what - 20];
-    if (what < 0 || what > 12) return -9;
-    int[] states = new int[4];
-    for (Piece p : pieces) states[p.state]++;
-    int given = 0;
-    int givenBytes = 0;
-    for (Frame f : frames) {
-      if (f.givenAt >= 0) {
-        given++;
-        givenBytes += f.bytes.length;
-      }
+    switch (what) {
+      case 0: return time;
+      case 1: return lines.size();
+      case 2: return frames.size();
+      case 3: return given(false);
+      case 4: return pieces.size();
+      case 5: return inState(3);
+      case 6: return inState(2);
+      case 7: return inState(0);
+      case 8: return tray.size();
+      case 9: return given(true);
+      case 10: return cut;
+      case 11: return room;
+      case 12: return empties();
+      default: return what >= 21 && what <= 26 ? refusals[what - 20] : -9;
     }
-    int empties = 0;
-    for (Line l : lines) empties += l.empties;
-    int[] all = {
-      time, lines.size(), frames.size(), given, pieces.size(), states[3], states[2], states[0],
-      tray.size(), givenBytes, cut, room, empties
-    };
-    return all[what];
+  }
+
+  private int inState(int state) {
+    int many = 0;
+    for (Piece p : pieces) if (p.state == state) many++;
+    return many;
+  }
+
+  private int given(boolean bytes) {
+    int sum = 0;
+    for (Frame f : frames) if (f.givenAt >= 0) sum += bytes ? f.bytes.length : 1;
+    return sum;
+  }
+
+  private int empties() {
+    int sum = 0;
+    for (Line l : lines) sum += l.empties;
+    return sum;
   }
 }

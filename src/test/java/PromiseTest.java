@@ -103,6 +103,8 @@ final class PromiseTest {
     Due.is("2: the ninth with kind 9", x.open(9, 0, 1), -2);
     Due.row("2: refusals", refusals(x), 0, 4, 0, 5, 0, 4);
     Due.is("2: lines", x.status(1), 8);
+    Due.is("2: no line 8 to ask", x.line(8, 0), NONE);
+    Due.is("2: no line 8 to fall", x.fall(8), -1);
   }
 
   private static void lease() {
@@ -149,6 +151,7 @@ final class PromiseTest {
     Due.is("4: full", x.type(0, 1), -6);
     Due.is("4: full, n 0", x.type(0, 0), -4);
     Due.is("4: as it was", x.status(8), 4000);
+    Due.row("4: refusals", refusals(x), 0, 0, 0, 3, 0, 4);
   }
 
   private static void grow() {
@@ -173,6 +176,7 @@ final class PromiseTest {
     x.type(1, 1);
     Due.is("5: to 4000", x.grow(4000), 1);
     Due.is("5: all 4000", x.status(8), 4000);
+    Due.row("5: refusals", refusals(x), 0, 0, 2, 2, 0, 1);
   }
 
   private static void frame() {
@@ -215,6 +219,8 @@ final class PromiseTest {
     }
     x.tick(4);
     Due.is("6: the 301st", x.frame(), -6);
+    Due.is("6: no frame 300 to ask", x.frameOf(300, 0), NONE);
+    Due.is("6: no frame 300 that came", x.got(300, 0), -1);
 
     BundleLine y = new BundleLine();
     y.cut(1);
@@ -226,6 +232,7 @@ final class PromiseTest {
     y.type(1, 1);
     Due.is("6: the 3001st piece", y.frame(), -6);
     Due.row("6: refusals of y", refusals(y), 0, 0, 0, 0, 0, 2);
+    Due.is("6: no piece 3000 to ask", y.piece(3000, 0), NONE);
   }
 
   private static void cut() {
@@ -331,6 +338,8 @@ final class PromiseTest {
     Due.is("11: the second", x.bend(0, 0, 1), 1);
     Due.is("11: the third has 100 bytes", x.bend(0, 100, 1), -3);
     Due.is("11: byte -1", x.bend(0, -1, 1), -3);
+    Due.is("11: byte highest", x.bend(0, HIGHEST, 1), -3);
+    Due.row("11: refusals of BEYOND", refusals(x), 0, 0, 3, 0, 0, 0);
     Due.is("11: marks of the first", x.under(0, 0, 3), 2);
     Due.is("11: SUM stays as it was cut", x.piece(1, 6), sumOf123(250, 250));
     x.tick(2);
@@ -717,6 +726,11 @@ final class PromiseTest {
     Due.is("24: k 2", x.witness(0, 2), NONE);
     Due.is("24: k -1", x.witness(0, -1), NONE);
     Due.is("24: frame 1", x.witness(1, 0), NONE);
+    frameOfSize(x, 300);
+    x.tick(8);
+    Due.is("24: frame 0 ends where the next one begins", x.witness(0, 2), NONE);
+    Due.is("24: frame 1 begins where the last one ended", x.witness(1, -1), NONE);
+    Due.is("24: frame 1, GIVEN", x.witness(1, 0), 100);
     Due.is("24: frame -1", x.witness(-1, 0), NONE);
     Due.row("24: no refusals", refusals(x), 0, 0, 0, 0, 0, 0);
   }
@@ -739,6 +753,12 @@ final class PromiseTest {
     Due.is("25: one more", x.check(0, v + 1), false);
     Due.is("25: 0", x.check(0, 0), false);
     Due.is("25: frame 1", x.check(1, 0), false);
+    x.type(1, 1);
+    x.frame();
+    x.tick(1);
+    Due.is("25: not GIVEN, by the sum that it will have", x.check(1, 101), false);
+    x.tick(1);
+    Due.is("25: then GIVEN", x.check(1, 101), true);
     Due.is("25: frame -1", x.check(-1, 0), false);
 
     BundleLine y = new BundleLine();

@@ -6,6 +6,7 @@ final class TickTest {
 
   public static void main(String[] args) {
     layingTakesTheLineThatSendsFirst();
+    layingRoundsTicksUp();
     layingTakesTheLeastCarried();
     layingCountsWhatWasSentOfTheFirst();
     layingStopsAtFullQueues();
@@ -20,6 +21,7 @@ final class TickTest {
     sendingStopsAt200();
     comingTellsWhatWasLost();
     comingKeepsTheOrderOfFrames();
+    comingAfterManyCounts();
     restingNeedsAnEmptyLine();
     linesThatAreNotUpRest();
     Due.end();
@@ -48,6 +50,20 @@ final class TickTest {
     x.tick(1);
     // Line 1: 1, 2 ticks, then 3 on both (a tie: line 0), line 1: 3, 4, 5, then a tie of 6 again.
     Due.row("LAYING: ticks, up", laidOn(x, 0, 8), 1, 1, 0, 1, 1, 1, 0, 1);
+  }
+
+  private static void layingRoundsTicksUp() {
+    // Ticks by 9 on line 0 and by 10 on line 1: 2 and 1, 2 and 2, 3 and 2, 3 and 3, 4 and 3.
+    int[] sizes = {10, 11, 20, 21, 30};
+    int[] want = {1, 0, 1, 0, 1};
+    for (int i = 0; i < sizes.length; i++) {
+      BundleLine x = new BundleLine();
+      x.open(1, 9, 1);
+      x.open(1, 10, 1);
+      frameOfSize(x, sizes[i]);
+      x.tick(1);
+      Due.is("LAYING: " + sizes[i] + " bytes", x.piece(0, 4), want[i]);
+    }
   }
 
   private static void layingTakesTheLeastCarried() {
@@ -359,6 +375,24 @@ final class TickTest {
     Due.is("COMING: the first at 11", x.frameOf(0, 4), 11);
     Due.is("COMING: the second at 11", x.frameOf(1, 4), 11);
     Due.is("COMING: CREDIT", x.credit(), 8000);
+  }
+
+  private static void comingAfterManyCounts() {
+    BundleLine x = new BundleLine();
+    x.open(2, 40, 3);
+    x.cut(1);
+    for (int i = 0; i < 50; i++) {
+      frameOfSize(x, 40);
+      x.tick(1);
+      if (x.line(0, 6) > 1) {
+        x.lose(0);
+        x.lose(0);
+      }
+    }
+    x.tick(60);
+    Due.is("COMING: all frames", x.status(3), 50);
+    Due.is("COMING: each piece once more as often as it was lost", x.line(0, 7), 2000 + x.line(0, 10));
+    Due.is("COMING: two after each tick", x.line(0, 10), 100);
   }
 
   private static void restingNeedsAnEmptyLine() {
