@@ -1,4 +1,4 @@
-/** Counts the answers that are not the ones that are due. */
+/** Counts the answers that are not the ones that are due; and makes frames to ask about. */
 final class Due {
   private static int wrong = 0;
   private static int asked = 0;
@@ -23,6 +23,13 @@ final class Due {
     for (int i = 0; i < Math.min(got.length, want.length); i++) {
       is(calls + " at " + i, got[i], want[i]);
     }
+  }
+
+  /** A frame of so many bytes: 1, 2, 3, 1, 2, 3 .. */
+  static int frameOfSize(BundleLine x, int size) {
+    x.type(0x010203, Math.min(size, 3));
+    x.grow(size);
+    return x.frame();
   }
 
   static boolean anyWrong() {

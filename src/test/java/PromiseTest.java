@@ -41,13 +41,6 @@ final class PromiseTest {
     Due.end();
   }
 
-  /** A frame of so many bytes: 1, 2, 3, 1, 2, 3 .. */
-  private static int frameOfSize(BundleLine x, int size) {
-    x.type(0x010203, Math.min(size, 3));
-    x.grow(size);
-    return x.frame();
-  }
-
   private static int[] states(BundleLine x, int what, int... asked) {
     int[] row = new int[asked.length];
     for (int i = 0; i < row.length; i++) {
@@ -186,8 +179,8 @@ final class PromiseTest {
     Due.is("6: one byte", x.frame(), 0);
     Due.is("6: empty again", x.frame(), -3);
     Due.is("6: TRAY", x.status(8), 0);
-    Due.is("6: 501 bytes", frameOfSize(x, 501), 1);
-    Due.is("6: 500 bytes", frameOfSize(x, 500), 2);
+    Due.is("6: 501 bytes", Due.frameOfSize(x, 501), 1);
+    Due.is("6: 500 bytes", Due.frameOfSize(x, 500), 2);
     Due.is("6: pieces", x.status(4), 6);
     int[] sizes = {1, 250, 250, 1, 250, 250};
     int[] lasts = {1, 0, 0, 1, 0, 1};
@@ -224,7 +217,7 @@ final class PromiseTest {
 
     BundleLine y = new BundleLine();
     y.cut(1);
-    frameOfSize(y, 2999);
+    Due.frameOfSize(y, 2999);
     y.type(1, 2);
     Due.is("6: 3001 pieces", y.frame(), -6);
     y.cut(2);
@@ -241,7 +234,7 @@ final class PromiseTest {
     Due.is("7: 251", x.cut(251), -6);
     Due.is("7: 1", x.cut(1), 250);
     Due.is("7: 100", x.cut(100), 1);
-    frameOfSize(x, 250);
+    Due.frameOfSize(x, 250);
     Due.is("7: 250", x.cut(250), 100);
     Due.is("7: pieces", x.status(4), 3);
     Due.is("7: a piece that was cut before", x.piece(0, 2), 100);
@@ -256,8 +249,8 @@ final class PromiseTest {
     Due.is("8: 20000", x.room(20000), 8000);
     Due.is("8: CREDIT", x.credit(), 20000);
     x.open(1, 1, 1);
-    frameOfSize(x, 4000);
-    frameOfSize(x, 4000);
+    Due.frameOfSize(x, 4000);
+    Due.frameOfSize(x, 4000);
     x.tick(1);
     Due.is("8: 4000", x.room(4000), 20000);
     Due.is("8: CREDIT below 0", x.credit(), -4000);
@@ -309,7 +302,7 @@ final class PromiseTest {
     x.fall(1);
     x.fall(2);
     x.fall(3);
-    frameOfSize(x, 500);
+    Due.frameOfSize(x, 500);
     x.tick(1);
     Due.is("10: the first", x.lose(0), 0);
     Due.is("10: the second", x.lose(0), 1);
@@ -332,7 +325,7 @@ final class PromiseTest {
   private static void bend() {
     BundleLine x = new BundleLine();
     x.open(0, 1000, 2);
-    frameOfSize(x, 600);
+    Due.frameOfSize(x, 600);
     x.tick(1);
     Due.is("11: the first", x.bend(0, 249, 255), 0);
     Due.is("11: the second", x.bend(0, 0, 1), 1);
@@ -391,7 +384,7 @@ final class PromiseTest {
     Due.is("12: no line", x.fall(0), -1);
     x.open(2, 100, 3);
     x.cut(50);
-    frameOfSize(x, 425);
+    Due.frameOfSize(x, 425);
     x.tick(1);
     x.lose(0);
     x.tick(3);
@@ -421,7 +414,7 @@ final class PromiseTest {
   private static void fallForgetsWhatWasSent() {
     BundleLine x = new BundleLine();
     x.open(2, 10, 1);
-    frameOfSize(x, 15);
+    Due.frameOfSize(x, 15);
     x.tick(1);
     Due.is("12: 5 wait", x.line(0, 5), 5);
     Due.is("12: one", x.fall(0), 1);
@@ -460,7 +453,7 @@ final class PromiseTest {
     x.open(3, 30, 2);
     x.open(1, 20, 1);
     x.cut(50);
-    frameOfSize(x, 120);
+    Due.frameOfSize(x, 120);
     x.tick(2);
     int[] row = states(x, 1, -1, 0, 1, 2, 3, 4, 5, 6, 7, 8, 9, 10, 11, 12, 13, 14, 15);
     // Line 0 has 0 (2 ticks against 3), then 2 (70 bytes: 3 ticks; line 1 has 50 + 20: 4 ticks).
@@ -538,7 +531,7 @@ final class PromiseTest {
     BundleLine x = new BundleLine();
     x.open(2, 10, 1);
     x.cut(10);
-    frameOfSize(x, 30);
+    Due.frameOfSize(x, 30);
     x.tick(1);
     Due.is("17: the first", x.queued(0, 0), 1);
     Due.is("17: the second", x.queued(0, 1), 2);
@@ -558,7 +551,7 @@ final class PromiseTest {
     BundleLine x = new BundleLine();
     x.open(2, 10, 5);
     x.cut(5);
-    frameOfSize(x, 15);
+    Due.frameOfSize(x, 15);
     x.tick(2);
     x.lose(0);
     x.bend(0, 0, 1);
@@ -590,8 +583,8 @@ final class PromiseTest {
     BundleLine x = new BundleLine();
     x.open(1, 20, 1);
     x.room(4000);
-    frameOfSize(x, 3000);
-    frameOfSize(x, 2000);
+    Due.frameOfSize(x, 3000);
+    Due.frameOfSize(x, 2000);
     Due.is("19: the first NEW", x.waits(0), 0);
     Due.is("19: the last NEW", x.waits(19), 19);
     Due.is("19: no more", x.waits(20), NONE);
@@ -652,8 +645,8 @@ final class PromiseTest {
   private static void frameOf() {
     BundleLine x = new BundleLine();
     x.open(0, 250, 2);
-    frameOfSize(x, 251);
-    frameOfSize(x, 500);
+    Due.frameOfSize(x, 251);
+    Due.frameOfSize(x, 500);
     x.tick(4);
     int[][] want = {{NONE, 251, 0, 2, 2, 4, NONE}, {NONE, 500, 2, 2, 0, NONE, NONE}};
     for (int f = 0; f < 2; f++) {
@@ -673,7 +666,7 @@ final class PromiseTest {
   private static void credit() {
     BundleLine x = new BundleLine();
     x.open(0, 1000, 1);
-    frameOfSize(x, 600);
+    Due.frameOfSize(x, 600);
     Due.is("22: NEW ones take none", x.credit(), 8000);
     x.tick(1);
     Due.is("22: LAID ones do", x.credit(), 7400);
@@ -689,7 +682,7 @@ final class PromiseTest {
     x.open(1, 250, 1);
     x.open(0, 1000, 1);
     x.cut(250);
-    frameOfSize(x, 1000);
+    Due.frameOfSize(x, 1000);
     Due.is("23: none THERE", x.skew(), 0);
     x.fall(0);
     x.tick(1);
@@ -704,7 +697,7 @@ final class PromiseTest {
 
     BundleLine y = new BundleLine();
     y.open(0, 250, 1);
-    frameOfSize(y, 500);
+    Due.frameOfSize(y, 500);
     y.tick(2);
     Due.is("23: 0 less 1", y.skew(), -1);
   }
@@ -713,7 +706,7 @@ final class PromiseTest {
     BundleLine x = new BundleLine();
     x.open(0, 1000, 2);
     x.open(2, 100, 1);
-    frameOfSize(x, 300);
+    Due.frameOfSize(x, 300);
     x.tick(1);
     Due.is("24: not GIVEN", x.witness(0, 0), NONE);
     x.bend(0, 0, 1);
@@ -726,7 +719,7 @@ final class PromiseTest {
     Due.is("24: k 2", x.witness(0, 2), NONE);
     Due.is("24: k -1", x.witness(0, -1), NONE);
     Due.is("24: frame 1", x.witness(1, 0), NONE);
-    frameOfSize(x, 300);
+    Due.frameOfSize(x, 300);
     x.tick(8);
     Due.is("24: frame 0 ends where the next one begins", x.witness(0, 2), NONE);
     Due.is("24: frame 1 begins where the last one ended", x.witness(1, -1), NONE);
@@ -739,7 +732,7 @@ final class PromiseTest {
     BundleLine x = new BundleLine();
     x.open(0, 500, 1);
     x.open(0, 250, 1);
-    frameOfSize(x, 750);
+    Due.frameOfSize(x, 750);
     Due.is("25: not GIVEN", x.check(0, 0), false);
     x.tick(2);
     // 0 goes over line 0 (of a tie the least number), 1 over line 0 (500 bytes, 1 tick), 2 over 1.
@@ -764,7 +757,7 @@ final class PromiseTest {
     BundleLine y = new BundleLine();
     y.open(0, 1000, 1);
     y.cut(1);
-    frameOfSize(y, 20);
+    Due.frameOfSize(y, 20);
     y.tick(2);
     int round = 0;
     for (int k = 0; k < 20; k++) {
@@ -778,8 +771,8 @@ final class PromiseTest {
     BundleLine x = new BundleLine();
     x.open(2, 300, 1);
     x.cut(100);
-    frameOfSize(x, 150);
-    frameOfSize(x, 400);
+    Due.frameOfSize(x, 150);
+    Due.frameOfSize(x, 400);
     x.type(1, 3);
     x.room(5000);
     x.tick(1);

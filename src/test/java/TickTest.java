@@ -23,14 +23,9 @@ final class TickTest {
     comingKeepsTheOrderOfFrames();
     comingAfterManyCounts();
     restingNeedsAnEmptyLine();
+    restingOnEachLine();
     linesThatAreNotUpRest();
     Due.end();
-  }
-
-  private static int frameOfSize(BundleLine x, int size) {
-    x.type(0x010203, Math.min(size, 3));
-    x.grow(size);
-    return x.frame();
   }
 
   private static int[] laidOn(BundleLine x, int from, int to) {
@@ -46,7 +41,7 @@ final class TickTest {
     x.open(1, 10, 1);
     x.open(1, 30, 40);
     x.cut(30);
-    frameOfSize(x, 240);
+    Due.frameOfSize(x, 240);
     x.tick(1);
     // Line 1: 1, 2 ticks, then 3 on both (a tie: line 0), line 1: 3, 4, 5, then a tie of 6 again.
     Due.row("LAYING: ticks, up", laidOn(x, 0, 8), 1, 1, 0, 1, 1, 1, 0, 1);
@@ -60,7 +55,7 @@ final class TickTest {
       BundleLine x = new BundleLine();
       x.open(1, 9, 1);
       x.open(1, 10, 1);
-      frameOfSize(x, sizes[i]);
+      Due.frameOfSize(x, sizes[i]);
       x.tick(1);
       Due.is("LAYING: " + sizes[i] + " bytes", x.piece(0, 4), want[i]);
     }
@@ -72,16 +67,16 @@ final class TickTest {
     x.open(1, 100, 1);
     x.open(1, 100, 1);
     x.cut(100);
-    frameOfSize(x, 200);
+    Due.frameOfSize(x, 200);
     x.tick(1);
     Due.row("LAYING: all carried 0", laidOn(x, 0, 2), 0, 1);
     x.tick(1);
     x.cut(90);
-    frameOfSize(x, 180);
+    Due.frameOfSize(x, 180);
     x.tick(1);
     Due.row("LAYING: 100, 100, 0", laidOn(x, 2, 4), 2, 0);
     x.tick(1);
-    frameOfSize(x, 90);
+    Due.frameOfSize(x, 90);
     x.tick(1);
     Due.row("LAYING: 190, 100, 90", laidOn(x, 4, 5), 2);
   }
@@ -90,7 +85,7 @@ final class TickTest {
     BundleLine x = new BundleLine();
     x.open(1, 10, 1);
     x.cut(100);
-    frameOfSize(x, 100);
+    Due.frameOfSize(x, 100);
     x.tick(9);
     Due.is("LAYING: 10 bytes wait", x.line(0, 5), 10);
     x.open(1, 5, 1);
@@ -103,7 +98,7 @@ final class TickTest {
     BundleLine y = new BundleLine();
     y.open(1, 10, 1);
     y.cut(100);
-    frameOfSize(y, 100);
+    Due.frameOfSize(y, 100);
     y.tick(9);
     y.open(1, 4, 1);
     y.type(1, 8);
@@ -118,7 +113,7 @@ final class TickTest {
     x.open(1, 2, 1);
     x.open(1, 1, 1);
     x.cut(5);
-    frameOfSize(x, 500);
+    Due.frameOfSize(x, 500);
     x.tick(1);
     Due.is("LAYING: 40 on line 0", x.line(0, 4), 40);
     Due.is("LAYING: 40 on line 1", x.line(1, 4), 40);
@@ -135,10 +130,10 @@ final class TickTest {
     BundleLine x = new BundleLine();
     x.open(1, 10, 1);
     x.cut(10);
-    frameOfSize(x, 30);
+    Due.frameOfSize(x, 30);
     x.tick(1);
     x.fall(0);
-    frameOfSize(x, 10);
+    Due.frameOfSize(x, 10);
     x.rise(0);
     x.tick(1);
     for (int k = 0; k < 3; k++) {
@@ -149,7 +144,7 @@ final class TickTest {
     BundleLine y = new BundleLine();
     y.open(1, 1, 1);
     y.cut(1);
-    frameOfSize(y, 60);
+    Due.frameOfSize(y, 60);
     y.tick(1);
     y.fall(0);
     y.rise(0);
@@ -164,7 +159,7 @@ final class TickTest {
     x.open(1, 100, 1);
     x.open(1, 1, 1);
     x.cut(10);
-    frameOfSize(x, 10);
+    Due.frameOfSize(x, 10);
     x.tick(1);
     Due.is("LAYING: NEW, the faster line", x.piece(0, 4), 0);
     x.fall(0);
@@ -190,10 +185,10 @@ final class TickTest {
     x.open(1, 1, 1);
     x.room(4000);
     x.cut(200);
-    frameOfSize(x, 3900);
-    frameOfSize(x, 200);
+    Due.frameOfSize(x, 3900);
+    Due.frameOfSize(x, 200);
     x.cut(50);
-    frameOfSize(x, 50);
+    Due.frameOfSize(x, 50);
     x.tick(1);
     Due.is("LAYING: CREDIT is left", x.credit(), 100);
     Due.is("LAYING: the first that lacks it", x.piece(20, 0), 0);
@@ -209,8 +204,8 @@ final class TickTest {
     BundleLine x = new BundleLine();
     x.open(1, 1, 1);
     x.room(5000);
-    frameOfSize(x, 4000);
-    frameOfSize(x, 1250);
+    Due.frameOfSize(x, 4000);
+    Due.frameOfSize(x, 1250);
     x.tick(1);
     x.room(4000);
     Due.is("LAYING: CREDIT", x.credit(), -1000);
@@ -226,7 +221,7 @@ final class TickTest {
     BundleLine x = new BundleLine();
     x.open(0, 300, 1);
     x.cut(110);
-    frameOfSize(x, 350);
+    Due.frameOfSize(x, 350);
     x.tick(1);
     Due.is("SENDING: two of 110", x.line(0, 9), 220);
     Due.is("SENDING: nothing of the third", x.line(0, 5), 130);
@@ -239,7 +234,7 @@ final class TickTest {
     BundleLine x = new BundleLine();
     x.open(2, 300, 7);
     x.cut(110);
-    frameOfSize(x, 350);
+    Due.frameOfSize(x, 350);
     x.tick(1);
     Due.is("SENDING: 300 bytes", x.line(0, 9), 300);
     Due.is("SENDING: two pieces", x.line(0, 7), 2);
@@ -255,7 +250,7 @@ final class TickTest {
     BundleLine x = new BundleLine();
     x.open(3, 300, 1);
     x.lease(0, 500, 3);
-    frameOfSize(x, 4000);
+    Due.frameOfSize(x, 4000);
     int[] want = {300, 500, 500, 800, 1000, 1000, 1300};
     for (int i = 0; i < want.length; i++) {
       x.tick(1);
@@ -268,7 +263,7 @@ final class TickTest {
     BundleLine y = new BundleLine();
     y.open(3, 1000, 1);
     y.lease(0, 250, 20);
-    frameOfSize(y, 1000);
+    Due.frameOfSize(y, 1000);
     y.tick(20);
     Due.is("SENDING: a SPAN of 20, in it", y.line(0, 9), 250);
     y.tick(1);
@@ -276,7 +271,7 @@ final class TickTest {
 
     BundleLine z = new BundleLine();
     z.open(3, 1000, 1);
-    frameOfSize(z, 4000);
+    Due.frameOfSize(z, 4000);
     z.tick(4);
     Due.is("SENDING: 1000 in 4 at first", z.line(0, 9), 1000);
     z.tick(1);
@@ -286,7 +281,7 @@ final class TickTest {
   private static void sendingWithALeaseThatWasMadeLess() {
     BundleLine x = new BundleLine();
     x.open(3, 600, 1);
-    frameOfSize(x, 2000);
+    Due.frameOfSize(x, 2000);
     x.tick(1);
     x.lease(0, 500, 3);
     x.tick(2);
@@ -308,7 +303,7 @@ final class TickTest {
     BundleLine x = new BundleLine();
     x.open(1, 1000, 10);
     x.cut(1);
-    frameOfSize(x, 300);
+    Due.frameOfSize(x, 300);
     x.tick(5);
     Due.is("SENDING: 200 UNDER WAY", x.line(0, 6), 200);
     Due.is("SENDING: CARRIED", x.line(0, 9), 200);
@@ -325,9 +320,9 @@ final class TickTest {
     BundleLine y = new BundleLine();
     y.open(1, 39, 40);
     y.cut(1);
-    frameOfSize(y, 199);
+    Due.frameOfSize(y, 199);
     y.cut(250);
-    frameOfSize(y, 300);
+    Due.frameOfSize(y, 300);
     y.tick(20);
     // 199 of one byte and one of 250, then no byte of the last one.
     Due.is("SENDING: 449 bytes", y.line(0, 9), 449);
@@ -339,7 +334,7 @@ final class TickTest {
     BundleLine x = new BundleLine();
     x.open(2, 10, 2);
     x.cut(5);
-    frameOfSize(x, 30);
+    Due.frameOfSize(x, 30);
     x.tick(1);
     x.lose(0);
     x.bend(0, 1, 7);
@@ -365,8 +360,8 @@ final class TickTest {
     BundleLine x = new BundleLine();
     x.open(0, 250, 10);
     x.open(1, 20, 1);
-    frameOfSize(x, 240);
-    frameOfSize(x, 20);
+    Due.frameOfSize(x, 240);
+    Due.frameOfSize(x, 20);
     x.tick(5);
     Due.is("COMING: the second frame is THERE", x.frameOf(1, 3), 1);
     Due.is("COMING: and waits", x.status(3), 0);
@@ -382,7 +377,7 @@ final class TickTest {
     x.open(2, 40, 3);
     x.cut(1);
     for (int i = 0; i < 50; i++) {
-      frameOfSize(x, 40);
+      Due.frameOfSize(x, 40);
       x.tick(1);
       if (x.line(0, 6) > 1) {
         x.lose(0);
@@ -399,7 +394,7 @@ final class TickTest {
     BundleLine x = new BundleLine();
     x.open(3, 10, 3);
     x.cut(10);
-    frameOfSize(x, 20);
+    Due.frameOfSize(x, 20);
     x.tick(1);
     x.lose(0);
     x.tick(3);
@@ -423,11 +418,26 @@ final class TickTest {
     Due.is("RESTING: an EMPTY's byte is CARRIED", x.line(0, 9), 41);
   }
 
+  private static void restingOnEachLine() {
+    BundleLine x = new BundleLine();
+    x.open(2, 10, 1);
+    x.open(2, 10, 1);
+    x.cut(10);
+    Due.frameOfSize(x, 20);
+    x.tick(1);
+    Due.is("RESTING: on line 0", x.lose(0), 0);
+    Due.is("RESTING: on line 1", x.lose(1), 1);
+    x.tick(1);
+    Due.is("RESTING: one on line 0", x.line(0, 11), 1);
+    Due.is("RESTING: one on line 1", x.line(1, 11), 1);
+    Due.is("RESTING: two in all", x.status(12), 2);
+  }
+
   private static void linesThatAreNotUpRest() {
     BundleLine x = new BundleLine();
     x.open(2, 10, 1);
     x.cut(10);
-    frameOfSize(x, 10);
+    Due.frameOfSize(x, 10);
     x.tick(1);
     x.lose(0);
     x.fall(0);
