@@ -1,8 +1,8 @@
 /** Each promise of the document, with answers that were worked out by hand from its words. */
 final class PromiseTest {
-  private static final int NONE = -9;
-  private static final int LOWEST = Integer.MIN_VALUE;
-  private static final int HIGHEST = Integer.MAX_VALUE;
+  private static final int NONE = Due.NONE;
+  private static final int LOWEST = Due.LOWEST;
+  private static final int HIGHEST = Due.HIGHEST;
 
   private PromiseTest() {}
 
@@ -41,27 +41,15 @@ final class PromiseTest {
     Due.end();
   }
 
-  private static int[] states(BundleLine x, int what, int... asked) {
-    int[] row = new int[asked.length];
-    for (int i = 0; i < row.length; i++) {
-      row[i] = what == 0 ? x.status(asked[i]) : x.line(what - 1, asked[i]);
-    }
-    return row;
-  }
-
-  private static int[] refusals(BundleLine x) {
-    return states(x, 0, 21, 22, 23, 24, 25, 26);
-  }
-
   private static int[] lineRow(BundleLine x, int line) {
-    return states(x, line + 1, 3, 4, 5, 6, 7, 8, 9, 10, 11, 12);
+    return Due.line(x, line, 3, 4, 5, 6, 7, 8, 9, 10, 11, 12);
   }
 
   private static void newObject() {
     BundleLine x = new BundleLine();
-    int[] row = states(x, 0, 0, 1, 2, 3, 4, 5, 6, 7, 8, 9, 10, 11, 12);
+    int[] row = Due.status(x, 0, 1, 2, 3, 4, 5, 6, 7, 8, 9, 10, 11, 12);
     Due.row("1: status", row, 0, 0, 0, 0, 0, 0, 0, 0, 0, 0, 250, 8000, 0);
-    Due.row("1: refusals", refusals(x), 0, 0, 0, 0, 0, 0);
+    Due.row("1: refusals", Due.refusals(x), 0, 0, 0, 0, 0, 0);
     Due.is("1: line", x.line(0, 0), NONE);
     Due.is("1: piece", x.piece(0, 0), NONE);
     Due.is("1: frameOf", x.frameOf(0, 0), NONE);
@@ -94,7 +82,7 @@ final class PromiseTest {
     Due.is("2: the ninth", x.open(0, 1000, 1), -6);
     Due.is("2: the ninth with speed 0", x.open(1, 0, 1), -4);
     Due.is("2: the ninth with kind 9", x.open(9, 0, 1), -2);
-    Due.row("2: refusals", refusals(x), 0, 4, 0, 5, 0, 4);
+    Due.row("2: refusals", Due.refusals(x), 0, 4, 0, 5, 0, 4);
     Due.is("2: lines", x.status(1), 8);
     Due.is("2: no line 8 to ask", x.line(8, 0), NONE);
     Due.is("2: no line 8 to fall", x.fall(8), -1);
@@ -104,7 +92,7 @@ final class PromiseTest {
     BundleLine x = new BundleLine();
     x.open(3, 1000, 1);
     x.open(2, 1000, 1);
-    Due.row("3: at first", states(x, 1, 13, 14), 1000, 4);
+    Due.row("3: at first", Due.line(x, 0, 13, 14), 1000, 4);
     Due.is("3: line -1", x.lease(-1, 0, 0), -1);
     Due.is("3: line 2", x.lease(2, 0, 0), -1);
     Due.is("3: SHAKY", x.lease(1, 0, 0), -2);
@@ -112,13 +100,13 @@ final class PromiseTest {
     Due.is("3: span 0", x.lease(0, 20001, 0), -4);
     Due.is("3: allowance 20001", x.lease(0, 20001, 1), -6);
     Due.is("3: span 21", x.lease(0, 250, 21), -6);
-    Due.row("3: not changed", states(x, 1, 13, 14), 1000, 4);
+    Due.row("3: not changed", Due.line(x, 0, 13, 14), 1000, 4);
     Due.is("3: the greatest", x.lease(0, 20000, 20), 1);
-    Due.row("3: the greatest", states(x, 1, 13, 14), 20000, 20);
+    Due.row("3: the greatest", Due.line(x, 0, 13, 14), 20000, 20);
     Due.is("3: the least", x.lease(0, 250, 1), 1);
-    Due.row("3: the least", states(x, 1, 13, 14), 250, 1);
-    Due.row("3: of others", states(x, 2, 13, 14), 0, 0);
-    Due.row("3: refusals", refusals(x), 2, 1, 0, 2, 0, 2);
+    Due.row("3: the least", Due.line(x, 0, 13, 14), 250, 1);
+    Due.row("3: of others", Due.line(x, 1, 13, 14), 0, 0);
+    Due.row("3: refusals", Due.refusals(x), 2, 1, 0, 2, 0, 2);
   }
 
   private static void type() {
@@ -144,7 +132,7 @@ final class PromiseTest {
     Due.is("4: full", x.type(0, 1), -6);
     Due.is("4: full, n 0", x.type(0, 0), -4);
     Due.is("4: as it was", x.status(8), 4000);
-    Due.row("4: refusals", refusals(x), 0, 0, 0, 3, 0, 4);
+    Due.row("4: refusals", Due.refusals(x), 0, 0, 0, 3, 0, 4);
   }
 
   private static void grow() {
@@ -169,7 +157,7 @@ final class PromiseTest {
     x.type(1, 1);
     Due.is("5: to 4000", x.grow(4000), 1);
     Due.is("5: all 4000", x.status(8), 4000);
-    Due.row("5: refusals", refusals(x), 0, 0, 2, 2, 0, 1);
+    Due.row("5: refusals", Due.refusals(x), 0, 0, 2, 2, 0, 1);
   }
 
   private static void frame() {
@@ -189,7 +177,7 @@ final class PromiseTest {
       Due.is("6: LAST of piece " + i, x.piece(i, 5), lasts[i]);
     }
     Due.is("6: NEW", x.status(7), 6);
-    Due.row("6: refusals", refusals(x), 0, 0, 2, 0, 0, 0);
+    Due.row("6: refusals", Due.refusals(x), 0, 0, 2, 0, 0, 0);
   }
 
   private static void frameLimits() {
@@ -224,7 +212,7 @@ final class PromiseTest {
     Due.is("6: 3000 pieces", y.frame(), 1);
     y.type(1, 1);
     Due.is("6: the 3001st piece", y.frame(), -6);
-    Due.row("6: refusals of y", refusals(y), 0, 0, 0, 0, 0, 2);
+    Due.row("6: refusals of y", Due.refusals(y), 0, 0, 0, 0, 0, 2);
     Due.is("6: no piece 3000 to ask", y.piece(3000, 0), NONE);
   }
 
@@ -276,7 +264,7 @@ final class PromiseTest {
     Due.is("9: TIME", x.status(0), 20000);
     Due.is("9: above 20000", x.tick(1), -6);
     Due.is("9: n 0 then", x.tick(0), -4);
-    Due.row("9: refusals", refusals(x), 0, 0, 0, 2, 0, 3);
+    Due.row("9: refusals", Due.refusals(x), 0, 0, 0, 2, 0, 3);
 
     BundleLine y = new BundleLine();
     y.tick(1);
@@ -319,7 +307,7 @@ final class PromiseTest {
     Due.row("10: heard", lineRow(x, 0), 1, 0, 0, 0, 4, 4, 502, 2, 2, 0);
     Due.is("10: LOST now", x.status(6), 2);
     Due.is("10: it goes again", x.tick(4), 1);
-    Due.row("10: refusals", refusals(x), 2, 2, 0, 0, 4, 0);
+    Due.row("10: refusals", Due.refusals(x), 2, 2, 0, 0, 4, 0);
   }
 
   private static void bend() {
@@ -332,7 +320,7 @@ final class PromiseTest {
     Due.is("11: the third has 100 bytes", x.bend(0, 100, 1), -3);
     Due.is("11: byte -1", x.bend(0, -1, 1), -3);
     Due.is("11: byte highest", x.bend(0, HIGHEST, 1), -3);
-    Due.row("11: refusals of BEYOND", refusals(x), 0, 0, 3, 0, 0, 0);
+    Due.row("11: refusals of BEYOND", Due.refusals(x), 0, 0, 3, 0, 0, 0);
     Due.is("11: marks of the first", x.under(0, 0, 3), 2);
     Due.is("11: SUM stays as it was cut", x.piece(1, 6), sumOf123(250, 250));
     x.tick(2);
@@ -376,7 +364,7 @@ final class PromiseTest {
     Due.is("11: both marks", x.under(0, 0, 3), 3);
     x.tick(1);
     Due.is("11: one that is lost is not refused", x.line(0, 12), 0);
-    Due.row("11: refusals", refusals(x), 1, 1, 0, 2, 3, 2);
+    Due.row("11: refusals", Due.refusals(x), 1, 1, 0, 2, 3, 2);
   }
 
   private static void fall() {
@@ -408,7 +396,7 @@ final class PromiseTest {
     Due.is("12: lost in the QUEUE", x.lostOn(10, 0), 1);
     Due.is("12: nothing goes", x.tick(5), 0);
     Due.row("12: later", lineRow(x, 0), 0, 0, 0, 0, 10, 10, 500, 11, 0, 0);
-    Due.row("12: refusals", refusals(x), 1, 0, 0, 0, 1, 0);
+    Due.row("12: refusals", Due.refusals(x), 1, 0, 0, 0, 1, 0);
   }
 
   private static void fallForgetsWhatWasSent() {
@@ -445,7 +433,7 @@ final class PromiseTest {
     Due.is("13: UP again", x.rise(0), 1);
     Due.is("13: UP", x.line(0, 3), 1);
     Due.is("13: it goes", x.tick(2), 1);
-    Due.row("13: refusals", refusals(x), 1, 0, 0, 0, 1, 0);
+    Due.row("13: refusals", Due.refusals(x), 1, 0, 0, 0, 1, 0);
   }
 
   private static void line() {
@@ -455,15 +443,15 @@ final class PromiseTest {
     x.cut(50);
     Due.frameOfSize(x, 120);
     x.tick(2);
-    int[] row = states(x, 1, -1, 0, 1, 2, 3, 4, 5, 6, 7, 8, 9, 10, 11, 12, 13, 14, 15);
+    int[] row = Due.line(x, 0, -1, 0, 1, 2, 3, 4, 5, 6, 7, 8, 9, 10, 11, 12, 13, 14, 15);
     // Line 0 has 0 (2 ticks against 3), then 2 (70 bytes: 3 ticks; line 1 has 50 + 20: 4 ticks).
     Due.row("14: line 0", row, NONE, 3, 30, 2, 1, 1, 10, 1, 1, 0, 60, 0, 0, 0, 1000, 4, NONE);
-    row = states(x, 2, -1, 0, 1, 2, 3, 4, 5, 6, 7, 8, 9, 10, 11, 12, 13, 14, 15);
+    row = Due.line(x, 1, -1, 0, 1, 2, 3, 4, 5, 6, 7, 8, 9, 10, 11, 12, 13, 14, 15);
     Due.row("14: line 1", row, NONE, 1, 20, 1, 1, 1, 10, 0, 0, 0, 40, 0, 0, 0, 0, 0, NONE);
     Due.is("14: line -1", x.line(-1, 0), NONE);
     Due.is("14: line 2", x.line(2, 0), NONE);
     Due.is("14: lowest", x.line(LOWEST, LOWEST), NONE);
-    Due.row("14: no refusals", refusals(x), 0, 0, 0, 0, 0, 0);
+    Due.row("14: no refusals", Due.refusals(x), 0, 0, 0, 0, 0, 0);
   }
 
   private static void piece() {
@@ -619,7 +607,7 @@ final class PromiseTest {
     Due.is("20: byte highest", x.got(0, HIGHEST), -3);
     Due.is("20: frame -1", x.got(-1, 0), -1);
     Due.is("20: frame 1", x.got(1, 0), -1);
-    Due.row("20: refusals", refusals(x), 3, 0, 6, 0, 0, 0);
+    Due.row("20: refusals", Due.refusals(x), 3, 0, 6, 0, 0, 0);
   }
 
   private static void gotOfTheLatest() {
@@ -660,7 +648,7 @@ final class PromiseTest {
     Due.is("21: GIVEN at 6", x.frameOf(1, 4), 6);
     Due.is("21: frame -1", x.frameOf(-1, 0), NONE);
     Due.is("21: frame 2", x.frameOf(2, 0), NONE);
-    Due.row("21: no refusals", refusals(x), 0, 0, 0, 0, 0, 0);
+    Due.row("21: no refusals", Due.refusals(x), 0, 0, 0, 0, 0, 0);
   }
 
   private static void credit() {
@@ -725,7 +713,7 @@ final class PromiseTest {
     Due.is("24: frame 1 begins where the last one ended", x.witness(1, -1), NONE);
     Due.is("24: frame 1, GIVEN", x.witness(1, 0), 100);
     Due.is("24: frame -1", x.witness(-1, 0), NONE);
-    Due.row("24: no refusals", refusals(x), 0, 0, 0, 0, 0, 0);
+    Due.row("24: no refusals", Due.refusals(x), 0, 0, 0, 0, 0, 0);
   }
 
   private static void check() {
@@ -764,7 +752,7 @@ final class PromiseTest {
       round = 31 * round + 100;
     }
     Due.is("25: it goes round", y.check(0, round), true);
-    Due.row("25: no refusals", refusals(y), 0, 0, 0, 0, 0, 0);
+    Due.row("25: no refusals", Due.refusals(y), 0, 0, 0, 0, 0, 0);
   }
 
   private static void status() {
@@ -779,10 +767,10 @@ final class PromiseTest {
     x.lose(0);
     x.tick(2);
     // 0 was lost as 1 and 2 came; it is laid again behind 5 and sent at TIME 3.
-    int[] row = states(x, 0, 0, 1, 2, 3, 4, 5, 6, 7, 8, 9, 10, 11, 12);
+    int[] row = Due.status(x, 0, 1, 2, 3, 4, 5, 6, 7, 8, 9, 10, 11, 12);
     Due.row("26: at TIME 3", row, 3, 1, 2, 0, 6, 5, 0, 0, 3, 0, 100, 5000, 0);
     x.tick(1);
-    row = states(x, 0, 0, 1, 2, 3, 4, 5, 6, 7, 8, 9, 10, 11, 12);
+    row = Due.status(x, 0, 1, 2, 3, 4, 5, 6, 7, 8, 9, 10, 11, 12);
     Due.row("26: at TIME 4", row, 4, 1, 2, 2, 6, 6, 0, 0, 3, 550, 100, 5000, 0);
     x.frame();
     x.tick(1);
@@ -828,6 +816,6 @@ final class PromiseTest {
     x.type(0, 9);
     x.open(0, 1001, 1);
     x.open(1, 1, 41);
-    Due.row("26: refusals", refusals(x), 2, 2, 3, 4, 5, 6);
+    Due.row("26: refusals", Due.refusals(x), 2, 2, 3, 4, 5, 6);
   }
 }
