@@ -187,7 +187,8 @@ final class RefusalTest {
 
   private static void ofFrame() {
     refusedOn("frame: empty", -3, BundleLine::frame, BundleLine::frame);
-    refusedAt("frame: empty and 100 not GIVEN", -3, RefusalTest::withHundredFrames, BundleLine::frame);
+    refusedAt("frame: empty and 100 not GIVEN", -3,
+        RefusalTest::withHundredFrames, BundleLine::frame);
     refusedAt("frame: empty and 3000 pieces", -3, RefusalTest::withAllPieces, BundleLine::frame);
     Supplier<BundleLine> hundred = () -> {
       BundleLine x = withHundredFrames();

@@ -540,7 +540,8 @@ final class TickEdgeTest {
       Due.row("others: its last byte, and 9 of the next", Due.line(y, 0, 4, 5, 6, 9), 1, 2, 1, 20);
       y.tick(1);
       Due.row("others: what is left", Due.line(y, 0, 4, 5, 6, 9), 0, 0, 2, 22);
-      Due.row("others: they come by their last bytes", new int[] {y.under(0, 0, 2), y.under(0, 1, 2)}, 7, 8);
+      Due.row("others: they come by their last bytes",
+          new int[] {y.under(0, 0, 2), y.under(0, 1, 2)}, 7, 8);
       BundleLine z = withLine(kind, 1, 1, 250);
       Due.frameOfSize(z, 250);
       z.tick(99);
@@ -561,6 +562,8 @@ final class TickEdgeTest {
     leasedWithASpanMadeLonger();
     leasedBelow0();
     leasedForLong();
+    leasedAndFallen();
+    leasedAndFallenForLong();
   }
 
   private static int[] carried(BundleLine x, int ticks) {
@@ -598,7 +601,8 @@ final class TickEdgeTest {
   }
 
   private static void leasedBySpeed() {
-    Due.row("LEASED: no more than SPEED", carried(leased(100, 20000, 20), 5), 100, 100, 100, 100, 100);
+    Due.row("LEASED: no more than SPEED",
+        carried(leased(100, 20000, 20), 5), 100, 100, 100, 100, 100);
     Due.row("LEASED: SPEED, just so", carried(leased(250, 250, 1), 3), 250, 250, 250);
     Due.row("LEASED: one more than SPEED", carried(leased(250, 251, 2), 4), 250, 1, 250, 1);
   }
@@ -662,6 +666,31 @@ final class TickEdgeTest {
     Due.row("LEASED: 250 in 16 ticks", carried(y, 80), now);
   }
 
+  /** What it CARRIED counts, though the line fell since. */
+  private static void leasedAndFallen() {
+    BundleLine x = leased(250, 250, 3);
+    Due.row("LEASED: 250", carried(x, 1), 250);
+    x.fall(0);
+    x.rise(0);
+    Due.row("LEASED: UP again at once", carried(x, 3), 0, 0, 250);
+    x.fall(0);
+    Due.row("LEASED: not UP", carried(x, 1), 0);
+    x.rise(0);
+    Due.row("LEASED: UP again after a tick", carried(x, 2), 0, 250);
+  }
+
+  /** 250 at TIME 1, then none for so long: whatever TIME it is, nothing of it counts. */
+  private static void leasedAndFallenForLong() {
+    for (int down = 1; down <= 70; down++) {
+      BundleLine x = leased(250, 250, 2);
+      x.tick(1);
+      x.fall(0);
+      x.tick(down);
+      x.rise(0);
+      Due.row("LEASED: not UP for " + down, carried(x, 2), 250, 0);
+    }
+  }
+
   private static void sendingWith200() {
     sendingWith199();
     sendingWith200UnderWay();
@@ -682,7 +711,8 @@ final class TickEdgeTest {
     x.cut(2);
     Due.frameOfSize(x, 4);
     x.tick(1);
-    Due.row("SENDING: one more, and no byte of the next", Due.line(x, 0, 4, 5, 6, 9), 1, 2, 200, 201);
+    Due.row("SENDING: one more, and no byte of the next",
+        Due.line(x, 0, 4, 5, 6, 9), 1, 2, 200, 201);
   }
 
   private static void sendingWith200UnderWay() {
@@ -834,7 +864,8 @@ final class TickEdgeTest {
     }
     x.tick(1);
     Due.row("COMING: count 1030 tells of thirty", Due.line(x, 0, 7, 8, 10), 1080, 1040, 30);
-    Due.row("COMING: thirty wait", new int[] {x.waits(0), x.waits(29), x.waits(30)}, 1000, 1029, 1080);
+    Due.row("COMING: thirty wait",
+        new int[] {x.waits(0), x.waits(29), x.waits(30)}, 1000, 1029, 1080);
     x.tick(25);
     // The thirty went once more, so that count 2040 is piece 2010.
     for (int i = 2010; i < 2022; i++) {
@@ -842,7 +873,8 @@ final class TickEdgeTest {
     }
     x.tick(1);
     Due.row("COMING: count 2052 tells of twelve", Due.line(x, 0, 7, 8, 10), 2120, 2080, 42);
-    Due.row("COMING: twelve wait", new int[] {x.waits(0), x.waits(11), x.waits(12)}, 2010, 2021, 2090);
+    Due.row("COMING: twelve wait",
+        new int[] {x.waits(0), x.waits(11), x.waits(12)}, 2010, 2021, 2090);
     Due.is("COMING: all", x.tick(40), 1);
     Due.row("COMING: 3042 were sent and heard", Due.line(x, 0, 7, 8, 9, 10), 3042, 3042, 3042, 42);
   }

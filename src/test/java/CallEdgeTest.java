@@ -1,16 +1,14 @@
-import java.math.BigInteger;
-
 /**
- * Each sentence of promises 1 to 26 that names an edge has a test of its own here, under the
+ * Each sentence of promises 1 to 13 that names an edge has a test of its own here, under the
  * promise's number and the sentence's words: the least and the greatest, and what lies beyond them.
  */
-final class EdgeTest {
+final class CallEdgeTest {
   private static final int NONE = Due.NONE;
   private static final int LOWEST = Due.LOWEST;
   private static final int HIGHEST = Due.HIGHEST;
   private static final int[] KINDS = {0, 1, 2, 3};
 
-  private EdgeTest() {}
+  private CallEdgeTest() {}
 
   public static void main(String[] args) {
     newObjects();
@@ -26,39 +24,7 @@ final class EdgeTest {
     bend();
     fall();
     rise();
-    lineAndPiece();
-    rows();
-    got();
-    frameOf();
-    credit();
-    skew();
-    witness();
-    check();
-    status();
     Due.end();
-  }
-
-  private static BundleLine withLine(int kind, int speed, int delay) {
-    BundleLine x = new BundleLine();
-    x.open(kind, speed, delay);
-    return x;
-  }
-
-  private static BundleLine withLines(int many) {
-    BundleLine x = new BundleLine();
-    for (int i = 0; i < many; i++) {
-      x.open(3, 1000, 1);
-    }
-    return x;
-  }
-
-  private static BundleLine withTray(int size) {
-    BundleLine x = new BundleLine();
-    if (size > 0) {
-      x.type(1, 1);
-      x.grow(size);
-    }
-    return x;
   }
 
   // ---- 1: a new object
@@ -97,7 +63,8 @@ final class EdgeTest {
       Due.is("2: KIND " + kind, x.open(kind, 250, 1), 0);
       Due.is("2: KIND, asked", x.line(0, 0), kind);
     }
-    Due.each("2: no such KIND", k -> withLines(0).open(k, 250, 1), -2, LOWEST, -2, -1, 4, 5, HIGHEST);
+    Due.each("2: no such KIND",
+        k -> Made.withLines(0).open(k, 250, 1), -2, LOWEST, -2, -1, 4, 5, HIGHEST);
   }
 
   private static void openSpeedBelow() {
@@ -106,7 +73,7 @@ final class EdgeTest {
       BundleLine x = new BundleLine();
       Due.is("2: speed 1 of KIND " + kind, x.open(kind, 1, 1), 0);
       Due.is("2: speed 1, asked", x.line(0, 1), 1);
-      Due.each("2: a speed below 1", n -> withLines(0).open(of, n, 1), -4, LOWEST, -1, 0);
+      Due.each("2: a speed below 1", n -> Made.withLines(0).open(of, n, 1), -4, LOWEST, -1, 0);
     }
   }
 
@@ -115,7 +82,7 @@ final class EdgeTest {
     Due.is("2: STEADY, speed 250", x.open(0, 250, 1), 0);
     Due.is("2: STEADY, speed 250, asked", x.line(0, 1), 250);
     int[] below = {LOWEST, -1, 0, 1, 249};
-    Due.each("2: STEADY below 250", n -> withLines(0).open(0, n, 1), -4, below);
+    Due.each("2: STEADY below 250", n -> Made.withLines(0).open(0, n, 1), -4, below);
   }
 
   private static void openDelayBelow() {
@@ -123,7 +90,7 @@ final class EdgeTest {
       BundleLine x = new BundleLine();
       Due.is("2: delay 1 of KIND " + kind, x.open(kind, 250, 1), 0);
       Due.is("2: delay 1, asked", x.line(0, 2), 1);
-      Due.each("2: a delay below 1", n -> withLines(0).open(kind, 250, n), -4, LOWEST, -1, 0);
+      Due.each("2: a delay below 1", n -> Made.withLines(0).open(kind, 250, n), -4, LOWEST, -1, 0);
     }
   }
 
@@ -132,7 +99,7 @@ final class EdgeTest {
       BundleLine x = new BundleLine();
       Due.is("2: speed 1000 of KIND " + kind, x.open(kind, 1000, 1), 0);
       Due.is("2: speed 1000, asked", x.line(0, 1), 1000);
-      Due.each("2: a speed above 1000", n -> withLines(0).open(kind, n, 1), -6, 1001, HIGHEST);
+      Due.each("2: a speed above 1000", n -> Made.withLines(0).open(kind, n, 1), -6, 1001, HIGHEST);
     }
   }
 
@@ -141,7 +108,7 @@ final class EdgeTest {
       BundleLine x = new BundleLine();
       Due.is("2: delay 40 of KIND " + kind, x.open(kind, 250, 40), 0);
       Due.is("2: delay 40, asked", x.line(0, 2), 40);
-      Due.each("2: a delay above 40", n -> withLines(0).open(kind, 250, n), -6, 41, HIGHEST);
+      Due.each("2: a delay above 40", n -> Made.withLines(0).open(kind, 250, n), -6, 41, HIGHEST);
     }
   }
 
@@ -154,7 +121,8 @@ final class EdgeTest {
       Due.is("2: the ninth line, of KIND " + kind, x.open(kind, 250, 1), -6);
       Due.is("2: there are eight", x.status(1), 8);
       for (int i = 0; i < 8; i++) {
-        Due.row("2: they are as they were", Due.line(x, i, 0, 1, 2, 3), KINDS[i % 4], 250 + i, 1 + i, 1);
+        Due.row("2: they are as they were",
+            Due.line(x, i, 0, 1, 2, 3), KINDS[i % 4], 250 + i, 1 + i, 1);
       }
     }
   }
@@ -171,21 +139,23 @@ final class EdgeTest {
   }
 
   private static void leaseNoSuchLine() {
-    Due.each("3: no lines", n -> withLines(0).lease(n, 250, 1), -1, LOWEST, -1, 0, 1, HIGHEST);
-    Due.each("3: three lines", n -> withLines(3).lease(n, 250, 1), -1, LOWEST, -1, 3, HIGHEST);
-    Due.each("3: eight lines", n -> withLines(8).lease(n, 250, 1), -1, LOWEST, -1, 8, HIGHEST);
-    Due.each("3: eight lines, each one", n -> withLines(8).lease(n, 250, 1), 1, 0, 1, 2, 3, 4, 5, 6, 7);
+    Due.each("3: no lines", n -> Made.withLines(0).lease(n, 250, 1), -1, LOWEST, -1, 0, 1, HIGHEST);
+    Due.each("3: three lines", n -> Made.withLines(3).lease(n, 250, 1), -1, LOWEST, -1, 3, HIGHEST);
+    Due.each("3: eight lines", n -> Made.withLines(8).lease(n, 250, 1), -1, LOWEST, -1, 8, HIGHEST);
+    Due.each("3: eight lines, each one",
+        n -> Made.withLines(8).lease(n, 250, 1), 1, 0, 1, 2, 3, 4, 5, 6, 7);
   }
 
   private static void leaseAnotherKind() {
-    Due.each("3: a line of another KIND", k -> withLine(k, 250, 1).lease(0, 250, 1), -2, 0, 1, 2);
-    BundleLine x = withLine(3, 250, 1);
+    Due.each("3: a line of another KIND",
+        k -> Made.withLine(k, 250, 1).lease(0, 250, 1), -2, 0, 1, 2);
+    BundleLine x = Made.withLine(3, 250, 1);
     Due.row("3: LEASED, at first", Due.line(x, 0, 13, 14), 1000, 4);
     Due.is("3: LEASED", x.lease(0, 250, 1), 1);
   }
 
   private static void leaseAllowanceBelow() {
-    BundleLine x = withLines(1);
+    BundleLine x = Made.withLines(1);
     Due.is("3: an allowance of 250", x.lease(0, 250, 20), 1);
     Due.row("3: an allowance of 250, asked", Due.line(x, 0, 13, 14), 250, 20);
     Due.each("3: an allowance below 250", n -> x.lease(0, n, 1), -4, LOWEST, -1, 0, 1, 249);
@@ -193,7 +163,7 @@ final class EdgeTest {
   }
 
   private static void leaseSpanBelow() {
-    BundleLine x = withLines(1);
+    BundleLine x = Made.withLines(1);
     Due.is("3: a span of 1", x.lease(0, 300, 1), 1);
     Due.row("3: a span of 1, asked", Due.line(x, 0, 13, 14), 300, 1);
     Due.each("3: a span below 1", n -> x.lease(0, 400, n), -4, LOWEST, -1, 0);
@@ -201,7 +171,7 @@ final class EdgeTest {
   }
 
   private static void leaseAllowanceAbove() {
-    BundleLine x = withLines(1);
+    BundleLine x = Made.withLines(1);
     Due.is("3: an allowance of 20000", x.lease(0, 20000, 5), 1);
     Due.row("3: an allowance of 20000, asked", Due.line(x, 0, 13, 14), 20000, 5);
     Due.each("3: an allowance above 20000", n -> x.lease(0, n, 6), -6, 20001, HIGHEST);
@@ -209,7 +179,7 @@ final class EdgeTest {
   }
 
   private static void leaseSpanAbove() {
-    BundleLine x = withLines(1);
+    BundleLine x = Made.withLines(1);
     Due.is("3: a span of 20", x.lease(0, 300, 20), 1);
     Due.row("3: a span of 20, asked", Due.line(x, 0, 13, 14), 300, 20);
     Due.each("3: a span above 20", n -> x.lease(0, 400, n), -6, 21, HIGHEST);
@@ -226,24 +196,24 @@ final class EdgeTest {
   }
 
   private static void typeBelow() {
-    Due.is("4: n 1", withTray(0).type(7, 1), 1);
-    Due.each("4: n below 1", n -> withTray(0).type(7, n), -4, LOWEST, -1, 0);
-    Due.each("4: n below 1, a TRAY of 5", n -> withTray(5).type(7, n), -4, LOWEST, -1, 0);
+    Due.is("4: n 1", Made.withTray(0).type(7, 1), 1);
+    Due.each("4: n below 1", n -> Made.withTray(0).type(7, n), -4, LOWEST, -1, 0);
+    Due.each("4: n below 1, a TRAY of 5", n -> Made.withTray(5).type(7, n), -4, LOWEST, -1, 0);
   }
 
   private static void typeAbove() {
-    Due.is("4: n 8", withTray(0).type(7, 8), 8);
-    Due.each("4: n above 8", n -> withTray(0).type(7, n), -6, 9, 10, HIGHEST);
-    Due.each("4: n above 8, a full TRAY", n -> withTray(4000).type(7, n), -6, 9, HIGHEST);
+    Due.is("4: n 8", Made.withTray(0).type(7, 8), 8);
+    Due.each("4: n above 8", n -> Made.withTray(0).type(7, n), -6, 9, 10, HIGHEST);
+    Due.each("4: n above 8, a full TRAY", n -> Made.withTray(4000).type(7, n), -6, 9, HIGHEST);
   }
 
   private static void typeMoreThan4000() {
     for (int n = 1; n <= 8; n++) {
-      BundleLine x = withTray(4000 - n);
+      BundleLine x = Made.withTray(4000 - n);
       Due.is("4: up to 4000 by " + n, x.type(7, n), 4000);
       Due.is("4: one more", x.type(7, 1), -6);
       Due.is("4: 4000 bytes", x.status(8), 4000);
-      BundleLine y = withTray(4001 - n);
+      BundleLine y = Made.withTray(4001 - n);
       Due.is("4: 4001 by " + n, y.type(7, n), -6);
       Due.is("4: 4001 by " + n + ", as it was", y.status(8), 4001 - n);
     }
@@ -253,7 +223,7 @@ final class EdgeTest {
     long[] words = {0, -1, Long.MIN_VALUE, Long.MAX_VALUE, 0x80817F7E01FF00C3L};
     for (long w : words) {
       for (int n = 1; n <= 8; n++) {
-        BundleLine x = withLine(0, 1000, 1);
+        BundleLine x = Made.withLine(0, 1000, 1);
         x.type(w, n);
         x.frame();
         x.tick(2);
@@ -277,25 +247,25 @@ final class EdgeTest {
 
   private static void growAnEmptyTray() {
     int[] any = {LOWEST, -1, 0, 1, 4000, 4001, HIGHEST};
-    Due.each("5: it is empty", n -> withTray(0).grow(n), -3, any);
-    BundleLine x = withTray(3);
+    Due.each("5: it is empty", n -> Made.withTray(0).grow(n), -3, any);
+    BundleLine x = Made.withTray(3);
     x.frame();
     Due.each("5: it is empty, as it is a FRAME", x::grow, -3, any);
-    Due.is("5: one byte", withTray(1).grow(4000), 1);
+    Due.is("5: one byte", Made.withTray(1).grow(4000), 1);
   }
 
   private static void growBelow() {
-    Due.is("5: to what it has", withTray(5).grow(5), 5);
-    Due.each("5: n is below what it has", n -> withTray(5).grow(n), -4, LOWEST, -1, 0, 1, 4);
-    Due.is("5: a full TRAY, to what it has", withTray(4000).grow(4000), 4000);
-    Due.is("5: n is below what a full TRAY has", withTray(4000).grow(3999), -4);
-    BundleLine x = withTray(5);
+    Due.is("5: to what it has", Made.withTray(5).grow(5), 5);
+    Due.each("5: n is below what it has", n -> Made.withTray(5).grow(n), -4, LOWEST, -1, 0, 1, 4);
+    Due.is("5: a full TRAY, to what it has", Made.withTray(4000).grow(4000), 4000);
+    Due.is("5: n is below what a full TRAY has", Made.withTray(4000).grow(3999), -4);
+    BundleLine x = Made.withTray(5);
     x.grow(4);
     Due.is("5: below, it stays", x.status(8), 5);
   }
 
   private static void growAbove() {
-    BundleLine x = withTray(5);
+    BundleLine x = Made.withTray(5);
     Due.each("5: n above 4000", x::grow, -6, 4001, HIGHEST);
     Due.is("5: above, it stays", x.status(8), 5);
     Due.is("5: to 4000", x.grow(4000), 5);
@@ -306,7 +276,7 @@ final class EdgeTest {
   private static void growByItsOwn() {
     for (int had = 1; had <= 4; had++) {
       for (int n = had; n <= 13; n++) {
-        BundleLine x = withLine(0, 1000, 1);
+        BundleLine x = Made.withLine(0, 1000, 1);
         x.type(0x11223344, had);
         x.grow(n);
         x.frame();
@@ -333,7 +303,7 @@ final class EdgeTest {
   }
 
   private static void frameOfAnEmptyTray() {
-    BundleLine x = withTray(0);
+    BundleLine x = Made.withTray(0);
     Due.is("6: it is empty", x.frame(), -3);
     x.type(1, 1);
     Due.is("6: one byte", x.frame(), 0);
@@ -344,7 +314,7 @@ final class EdgeTest {
   }
 
   private static void frameOfOneByteAndOf4000() {
-    BundleLine x = withTray(1);
+    BundleLine x = Made.withTray(1);
     Due.is("6: 1 byte", x.frame(), 0);
     Due.row("6: 1 byte, asked", frameRow(x, 0), 1, 0, 1);
     x.type(1, 1);
@@ -371,7 +341,7 @@ final class EdgeTest {
     int[] lasts = {1, 1, 2, 1, 99, 100, 1, 249, 250, 1, 250};
     for (int i = 0; i < cuts.length; i++) {
       String name = "6: " + sizes[i] + " by " + cuts[i];
-      BundleLine x = withTray(sizes[i]);
+      BundleLine x = Made.withTray(sizes[i]);
       x.cut(cuts[i]);
       x.frame();
       Due.is(name + ", pieces", x.frameOf(0, 2), rows[i]);
@@ -384,7 +354,7 @@ final class EdgeTest {
   }
 
   private static void frameAbovePieces() {
-    BundleLine x = withTray(2999);
+    BundleLine x = Made.withTray(2999);
     x.cut(1);
     x.frame();
     Due.is("6: 2999 pieces", x.status(4), 2999);
@@ -399,10 +369,10 @@ final class EdgeTest {
     Due.is("6: the 3001st piece", x.frame(), -6);
     Due.row("6: the 3001st piece, as it was", Due.status(x, 2, 4, 7, 8), 2, 3000, 3000, 1);
 
-    BundleLine y = withTray(3000);
+    BundleLine y = Made.withTray(3000);
     y.cut(1);
     Due.is("6: 3000 pieces of one frame", y.frame(), 0);
-    BundleLine z = withTray(3001);
+    BundleLine z = Made.withTray(3001);
     z.cut(1);
     Due.is("6: 3001 pieces of one frame", z.frame(), -6);
   }
@@ -424,7 +394,7 @@ final class EdgeTest {
 
   /** No 512 calls make so many: each one takes a type() and a frame(). */
   private static void frameAboveFrames() {
-    BundleLine x = withLine(0, 1000, 1);
+    BundleLine x = Made.withLine(0, 1000, 1);
     for (int i = 0; i < 10; i++) {
       Due.smallFrames(x, 30);
       x.tick(2);
@@ -462,17 +432,40 @@ final class EdgeTest {
   // ---- 7: cut, 8: room
 
   private static void cut() {
-    BundleLine x = new BundleLine();
-    Due.is("7: 250 at first, 1 is the least", x.cut(1), 250);
-    Due.each("7: below 1", x::cut, -4, LOWEST, -1, 0);
-    Due.is("7: 250 is the greatest", x.cut(250), 1);
-    Due.each("7: above 250", x::cut, -6, 251, HIGHEST);
-    Due.is("7: as it was", x.status(10), 250);
+    cutBelow();
+    cutAbove();
+    cutWhatItWas();
     cutForFramesThatCome();
   }
 
+  private static void cutBelow() {
+    BundleLine x = new BundleLine();
+    Due.is("7: 1 is the least", x.cut(1), 250);
+    Due.is("7: 1, asked", x.status(10), 1);
+    Due.each("7: below 1", x::cut, -4, LOWEST, -1, 0);
+    Due.is("7: below 1, as it was", x.status(10), 1);
+  }
+
+  private static void cutAbove() {
+    BundleLine x = new BundleLine();
+    x.cut(9);
+    Due.is("7: 250 is the greatest", x.cut(250), 9);
+    Due.is("7: 250, asked", x.status(10), 250);
+    Due.each("7: above 250", x::cut, -6, 251, HIGHEST);
+    Due.is("7: above 250, as it was", x.status(10), 250);
+  }
+
+  private static void cutWhatItWas() {
+    BundleLine x = new BundleLine();
+    Due.is("7: 250 at first", x.cut(3), 250);
+    x.cut(0);
+    x.cut(251);
+    Due.is("7: what it was, not what was refused", x.cut(4), 3);
+    Due.is("7: what it was, the same again", x.cut(4), 4);
+  }
+
   private static void cutForFramesThatCome() {
-    BundleLine x = withTray(5);
+    BundleLine x = Made.withTray(5);
     x.cut(5);
     x.frame();
     x.type(1, 5);
@@ -483,13 +476,36 @@ final class EdgeTest {
   }
 
   private static void room() {
+    roomBelow();
+    roomAbove();
+    roomWhatItWas();
+  }
+
+  private static void roomBelow() {
     BundleLine x = new BundleLine();
-    Due.is("8: 8000 at first, 4000 is the least", x.room(4000), 8000);
+    Due.is("8: 4000 is the least", x.room(4000), 8000);
+    Due.is("8: 4000, asked", x.status(11), 4000);
     Due.each("8: below 4000", x::room, -4, LOWEST, -1, 0, 3999);
-    Due.is("8: 20000 is the greatest", x.room(20000), 4000);
+    Due.is("8: below 4000, as it was", x.status(11), 4000);
+    Due.is("8: below 4000, CREDIT", x.credit(), 4000);
+  }
+
+  private static void roomAbove() {
+    BundleLine x = new BundleLine();
+    Due.is("8: 20000 is the greatest", x.room(20000), 8000);
+    Due.is("8: 20000, asked", x.status(11), 20000);
     Due.each("8: above 20000", x::room, -6, 20001, HIGHEST);
-    Due.is("8: as it was", x.status(11), 20000);
-    Due.is("8: CREDIT", x.credit(), 20000);
+    Due.is("8: above 20000, as it was", x.status(11), 20000);
+    Due.is("8: above 20000, CREDIT", x.credit(), 20000);
+  }
+
+  private static void roomWhatItWas() {
+    BundleLine x = new BundleLine();
+    Due.is("8: 8000 at first", x.room(5000), 8000);
+    x.room(3999);
+    x.room(20001);
+    Due.is("8: what it was, not what was refused", x.room(6000), 5000);
+    Due.is("8: what it was, the same again", x.room(6000), 6000);
   }
 
   // ---- 9: tick
@@ -502,7 +518,7 @@ final class EdgeTest {
   }
 
   private static void tickBelow() {
-    BundleLine x = withLines(1);
+    BundleLine x = Made.withLines(1);
     Due.each("9: n below 1", x::tick, -4, LOWEST, -1, 0);
     Due.is("9: no TIME went", x.status(0), 0);
     Due.is("9: 1", x.tick(1), 0);
@@ -510,7 +526,7 @@ final class EdgeTest {
   }
 
   private static void tickAbove() {
-    BundleLine x = withLines(1);
+    BundleLine x = Made.withLines(1);
     Due.each("9: n above 100", x::tick, -6, 101, 20000, 20001, HIGHEST);
     Due.is("9: no TIME went above", x.status(0), 0);
     Due.is("9: 100", x.tick(100), 0);
@@ -518,7 +534,7 @@ final class EdgeTest {
   }
 
   private static void tickAboveTime() {
-    BundleLine x = withLines(1);
+    BundleLine x = Made.withLines(1);
     for (int i = 0; i < 199; i++) {
       x.tick(100);
     }
@@ -531,7 +547,7 @@ final class EdgeTest {
     Due.each("9: TIME would be 20001", x::tick, -6, 1, 100);
     Due.is("9: TIME 20000 still", x.status(0), 20000);
 
-    BundleLine y = withLines(1);
+    BundleLine y = Made.withLines(1);
     for (int i = 0; i < 199; i++) {
       y.tick(100);
     }
@@ -540,7 +556,7 @@ final class EdgeTest {
   }
 
   private static void tickHowManyWereGiven() {
-    BundleLine x = withLine(0, 1000, 2);
+    BundleLine x = Made.withLine(0, 1000, 2);
     Due.smallFrames(x, 3);
     Due.is("9: none was GIVEN", x.tick(2), 0);
     Due.is("9: three were in one", x.tick(1), 3);
@@ -562,27 +578,20 @@ final class EdgeTest {
   }
 
   private static void loseNoSuchLine() {
-    Due.each("10: no lines", n -> withLines(0).lose(n), -1, LOWEST, -1, 0, 1, HIGHEST);
-    Due.each("10: eight lines", n -> withLines(8).lose(n), -1, LOWEST, -1, 8, HIGHEST);
-    Due.each("10: eight lines, each one", n -> withLines(8).lose(n), -5, 0, 1, 2, 3, 4, 5, 6, 7);
-  }
-
-  private static BundleLine withTwoUnderWay(int kind) {
-    BundleLine x = withLine(kind, 250, 1);
-    x.cut(2);
-    Due.frameOfSize(x, 3);
-    x.tick(1);
-    return x;
+    Due.each("10: no lines", n -> Made.withLines(0).lose(n), -1, LOWEST, -1, 0, 1, HIGHEST);
+    Due.each("10: eight lines", n -> Made.withLines(8).lose(n), -1, LOWEST, -1, 8, HIGHEST);
+    Due.each("10: eight lines, each one",
+        n -> Made.withLines(8).lose(n), -5, 0, 1, 2, 3, 4, 5, 6, 7);
   }
 
   private static void loseAnotherKind() {
-    Due.each("10: a STEADY or SLOW line", k -> withTwoUnderWay(k).lose(0), -2, 0, 1);
-    Due.each("10: a SHAKY or LEASED line", k -> withTwoUnderWay(k).lose(0), 0, 2, 3);
+    Due.each("10: a STEADY or SLOW line", k -> Made.withTwoUnderWay(k).lose(0), -2, 0, 1);
+    Due.each("10: a SHAKY or LEASED line", k -> Made.withTwoUnderWay(k).lose(0), 0, 2, 3);
   }
 
   private static void loseNothingThere() {
     for (int kind = 2; kind <= 3; kind++) {
-      BundleLine x = withLine(kind, 1, 1);
+      BundleLine x = Made.withLine(kind, 1, 1);
       Due.is("10: nothing was laid", x.lose(0), -5);
       x.cut(2);
       Due.frameOfSize(x, 2);
@@ -591,17 +600,17 @@ final class EdgeTest {
       x.tick(1);
       Due.is("10: it is UNDER WAY", x.lose(0), 0);
       Due.is("10: it was made to be lost already", x.lose(0), -5);
-      BundleLine y = withTwoUnderWay(kind);
+      BundleLine y = Made.withTwoUnderWay(kind);
       y.tick(1);
       Due.is("10: all came", y.lose(0), -5);
-      BundleLine z = withTwoUnderWay(kind);
+      BundleLine z = Made.withTwoUnderWay(kind);
       z.fall(0);
       Due.is("10: the line is not UP", z.lose(0), -5);
     }
   }
 
   private static void loseTheFirst() {
-    BundleLine x = withTwoUnderWay(2);
+    BundleLine x = Made.withTwoUnderWay(2);
     x.bend(0, 0, 1);
     Due.is("10: the first one, though it was bent", x.lose(0), 0);
     Due.is("10: the first that was not made to be lost", x.lose(0), 1);
@@ -610,19 +619,9 @@ final class EdgeTest {
     Due.is("10: marks of the second", x.under(0, 1, 3), 1);
   }
 
-  private static BundleLine withEmptyUnderWay(int kind) {
-    BundleLine x = withLine(kind, 250, 1);
-    x.type(1, 1);
-    x.frame();
-    x.tick(1);
-    x.bend(0, 0, 1);
-    x.tick(2);
-    return x;
-  }
-
   private static void loseAnEmpty() {
     for (int kind = 2; kind <= 3; kind++) {
-      BundleLine x = withEmptyUnderWay(kind);
+      BundleLine x = Made.withEmptyUnderWay(kind);
       Due.is("10: NONE for an EMPTY", x.lose(0), NONE);
       Due.is("10: its mark", x.under(0, 0, 3), 1);
       Due.row("10: that is no REFUSAL", Due.refusals(x), 0, 0, 0, 0, 0, 0);
@@ -644,37 +643,40 @@ final class EdgeTest {
   }
 
   private static void bendNoSuchLine() {
-    Due.each("11: no lines", n -> withLines(0).bend(n, 0, 1), -1, LOWEST, -1, 0, 1, HIGHEST);
-    Due.each("11: eight lines", n -> withLines(8).bend(n, 0, 1), -1, LOWEST, -1, 8, HIGHEST);
-    Due.each("11: eight lines, each one", n -> withLines(8).bend(n, 0, 1), -5, 0, 1, 2, 3, 4, 5, 6, 7);
+    Due.each("11: no lines", n -> Made.withLines(0).bend(n, 0, 1), -1, LOWEST, -1, 0, 1, HIGHEST);
+    Due.each("11: eight lines", n -> Made.withLines(8).bend(n, 0, 1), -1, LOWEST, -1, 8, HIGHEST);
+    Due.each("11: eight lines, each one",
+        n -> Made.withLines(8).bend(n, 0, 1), -5, 0, 1, 2, 3, 4, 5, 6, 7);
   }
 
   private static void bendMaskBelow() {
-    Due.each("11: a mask below 1", n -> withTwoUnderWay(0).bend(0, 0, n), -4, LOWEST, -256, -1, 0);
-    Due.is("11: a mask of 1", withTwoUnderWay(0).bend(0, 0, 1), 0);
+    Due.each("11: a mask below 1",
+        n -> Made.withTwoUnderWay(0).bend(0, 0, n), -4, LOWEST, -256, -1, 0);
+    Due.is("11: a mask of 1", Made.withTwoUnderWay(0).bend(0, 0, 1), 0);
   }
 
   private static void bendMaskAbove() {
-    Due.each("11: a mask above 255", n -> withTwoUnderWay(0).bend(0, 0, n), -6, 256, 257, HIGHEST);
-    Due.is("11: a mask of 255", withTwoUnderWay(0).bend(0, 0, 255), 0);
+    Due.each("11: a mask above 255",
+        n -> Made.withTwoUnderWay(0).bend(0, 0, n), -6, 256, 257, HIGHEST);
+    Due.is("11: a mask of 255", Made.withTwoUnderWay(0).bend(0, 0, 255), 0);
   }
 
   private static void bendNothingThere() {
     for (int kind : KINDS) {
-      BundleLine x = withLine(kind, 250, 1);
+      BundleLine x = Made.withLine(kind, 250, 1);
       Due.is("11: nothing was laid", x.bend(0, 0, 1), -5);
-      BundleLine y = withTwoUnderWay(kind);
+      BundleLine y = Made.withTwoUnderWay(kind);
       y.tick(1);
       Due.is("11: all came", y.bend(0, 0, 1), -5);
-      BundleLine z = withTwoUnderWay(kind);
+      BundleLine z = Made.withTwoUnderWay(kind);
       z.bend(0, 0, 1);
       z.bend(0, 0, 1);
       Due.is("11: all were bent", z.bend(0, 0, 1), -5);
-      BundleLine f = withTwoUnderWay(kind);
+      BundleLine f = Made.withTwoUnderWay(kind);
       f.fall(0);
       Due.is("11: the line is not UP", f.bend(0, 0, 1), -5);
     }
-    BundleLine l = withTwoUnderWay(2);
+    BundleLine l = Made.withTwoUnderWay(2);
     l.lose(0);
     l.lose(0);
     Due.is("11: all were made to be lost", l.bend(0, 0, 1), -5);
@@ -682,7 +684,7 @@ final class EdgeTest {
 
   private static void bendAnEmpty() {
     for (int kind : KINDS) {
-      BundleLine x = withEmptyUnderWay(kind);
+      BundleLine x = Made.withEmptyUnderWay(kind);
       Due.each("11: it is an EMPTY", i -> x.bend(0, i, 1), -2, LOWEST, -1, 0, 1, HIGHEST);
       Due.is("11: it is not bent", x.under(0, 0, 3), 0);
     }
@@ -690,15 +692,15 @@ final class EdgeTest {
 
   private static void bendNoSuchByte() {
     for (int kind : KINDS) {
-      Due.is("11: byte 0 of 2", withTwoUnderWay(kind).bend(0, 0, 1), 0);
-      Due.is("11: byte 1 of 2", withTwoUnderWay(kind).bend(0, 1, 1), 0);
-      BundleLine x = withTwoUnderWay(kind);
+      Due.is("11: byte 0 of 2", Made.withTwoUnderWay(kind).bend(0, 0, 1), 0);
+      Due.is("11: byte 1 of 2", Made.withTwoUnderWay(kind).bend(0, 1, 1), 0);
+      BundleLine x = Made.withTwoUnderWay(kind);
       Due.each("11: no such byte of 2", i -> x.bend(0, i, 1), -3, LOWEST, -1, 2, 3, HIGHEST);
       x.bend(0, 0, 1);
       Due.each("11: no such byte of 1", i -> x.bend(0, i, 1), -3, LOWEST, -1, 1, 2, HIGHEST);
       Due.is("11: byte 0 of 1", x.bend(0, 0, 1), 1);
     }
-    BundleLine y = withLine(0, 250, 1);
+    BundleLine y = Made.withLine(0, 250, 1);
     Due.frameOfSize(y, 250);
     y.tick(1);
     Due.is("11: byte 250 of 250", y.bend(0, 250, 1), -3);
@@ -706,11 +708,11 @@ final class EdgeTest {
   }
 
   private static void bendTheFirst() {
-    BundleLine x = withTwoUnderWay(2);
+    BundleLine x = Made.withTwoUnderWay(2);
     x.lose(0);
     Due.is("11: the first that was not made to be lost", x.bend(0, 0, 1), 1);
     Due.is("11: the first was, the second is bent", x.bend(0, 0, 1), -5);
-    BundleLine y = withTwoUnderWay(0);
+    BundleLine y = Made.withTwoUnderWay(0);
     y.bend(0, 0, 1);
     Due.is("11: the first that was not bent", y.bend(0, 0, 1), 1);
     Due.is("11: marks of the first", y.under(0, 0, 3), 2);
@@ -724,7 +726,7 @@ final class EdgeTest {
     for (int mask : masks) {
       for (int b : bytes) {
         for (int i = 0; i < 2; i++) {
-          BundleLine x = withLine(0, 250, 1);
+          BundleLine x = Made.withLine(0, 250, 1);
           x.type(b * 257, 2);
           x.frame();
           x.tick(1);
@@ -754,14 +756,15 @@ final class EdgeTest {
   }
 
   private static void fallNoSuchLine() {
-    Due.each("12: no lines", n -> withLines(0).fall(n), -1, LOWEST, -1, 0, 1, HIGHEST);
-    Due.each("12: eight lines", n -> withLines(8).fall(n), -1, LOWEST, -1, 8, HIGHEST);
-    Due.each("12: eight lines, each one", n -> withLines(8).fall(n), 0, 0, 1, 2, 3, 4, 5, 6, 7);
+    Due.each("12: no lines", n -> Made.withLines(0).fall(n), -1, LOWEST, -1, 0, 1, HIGHEST);
+    Due.each("12: eight lines", n -> Made.withLines(8).fall(n), -1, LOWEST, -1, 8, HIGHEST);
+    Due.each("12: eight lines, each one",
+        n -> Made.withLines(8).fall(n), 0, 0, 1, 2, 3, 4, 5, 6, 7);
   }
 
   private static void fallNotUp() {
     for (int kind : KINDS) {
-      BundleLine x = withLine(kind, 250, 1);
+      BundleLine x = Made.withLine(kind, 250, 1);
       Due.is("12: UP at first", x.line(0, 3), 1);
       Due.is("12: it falls", x.fall(0), 0);
       Due.is("12: not UP", x.line(0, 3), 0);
@@ -772,7 +775,7 @@ final class EdgeTest {
   }
 
   private static void fallWithNothing() {
-    BundleLine x = withLine(1, 1, 1);
+    BundleLine x = Made.withLine(1, 1, 1);
     Due.frameOfSize(x, 9);
     Due.is("12: nothing was laid", x.fall(0), 0);
     Due.is("12: NEW ones stay NEW", x.piece(0, 0), 0);
@@ -780,7 +783,7 @@ final class EdgeTest {
   }
 
   private static void fallWithAFullQueue() {
-    BundleLine x = withLine(1, 1, 1);
+    BundleLine x = Made.withLine(1, 1, 1);
     x.cut(2);
     Due.frameOfSize(x, 82);
     x.tick(1);
@@ -797,7 +800,7 @@ final class EdgeTest {
   }
 
   private static void fallWithAllUnderWay() {
-    BundleLine x = withLine(1, 1000, 40);
+    BundleLine x = Made.withLine(1, 1000, 40);
     x.cut(1);
     Due.frameOfSize(x, 200);
     x.tick(6);
@@ -812,7 +815,7 @@ final class EdgeTest {
 
   /** Those with counts from SEEN on that are no more, but not known to be lost. */
   private static void fallWithLostOnes() {
-    BundleLine x = withLine(2, 2, 1);
+    BundleLine x = Made.withLine(2, 2, 1);
     x.cut(1);
     Due.frameOfSize(x, 4);
     x.tick(1);
@@ -830,12 +833,12 @@ final class EdgeTest {
   }
 
   private static void fallWithEmpties() {
-    BundleLine x = withEmptyUnderWay(2);
+    BundleLine x = Made.withEmptyUnderWay(2);
     Due.row("12: an EMPTY UNDER WAY", Due.line(x, 0, 4, 6, 7, 8, 11), 0, 1, 2, 0, 1);
     Due.is("12: the piece ahead of it, not the EMPTY", x.fall(0), 1);
     Due.row("12: it is no more", Due.line(x, 0, 4, 6, 7, 8, 10, 11), 0, 0, 2, 2, 1, 1);
 
-    BundleLine y = withTwoUnderWay(0);
+    BundleLine y = Made.withTwoUnderWay(0);
     y.bend(0, 0, 1);
     y.bend(0, 0, 1);
     y.tick(1);
@@ -846,7 +849,7 @@ final class EdgeTest {
   }
 
   private static void fallOfWhatWasHeard() {
-    BundleLine x = withLine(2, 1, 1);
+    BundleLine x = Made.withLine(2, 1, 1);
     x.cut(1);
     Due.frameOfSize(x, 3);
     x.tick(1);
@@ -862,14 +865,15 @@ final class EdgeTest {
 
   /** What the document doesn't name stays as it was; other lines go on. */
   private static void fallKeepsTheRest() {
-    BundleLine x = withLine(3, 10, 2);
+    BundleLine x = Made.withLine(3, 10, 2);
     x.lease(0, 300, 7);
     x.open(1, 10, 2);
     x.cut(10);
     Due.frameOfSize(x, 20);
     x.tick(1);
     Due.is("12: one of two", x.fall(0), 1);
-    Due.row("12: line 0", Due.line(x, 0, 0, 1, 2, 7, 9, 11, 12, 13, 14), 3, 10, 2, 1, 10, 0, 0, 300, 7);
+    Due.row("12: line 0",
+        Due.line(x, 0, 0, 1, 2, 7, 9, 11, 12, 13, 14), 3, 10, 2, 1, 10, 0, 0, 300, 7);
     Due.row("12: line 1", Due.line(x, 1, 3, 6, 7, 8, 10), 1, 1, 1, 0, 0);
     x.tick(2);
     Due.is("12: the other one comes", x.piece(1, 0), 3);
@@ -878,452 +882,32 @@ final class EdgeTest {
   }
 
   private static void rise() {
-    Due.each("13: no lines", n -> withLines(0).rise(n), -1, LOWEST, -1, 0, 1, HIGHEST);
-    Due.each("13: eight lines", n -> withLines(8).rise(n), -1, LOWEST, -1, 8, HIGHEST);
-    Due.each("13: it is UP", n -> withLines(8).rise(n), -5, 0, 1, 2, 3, 4, 5, 6, 7);
+    riseNoSuchLine();
+    riseWhenUp();
+    riseOfEachLine();
+  }
+
+  private static void riseNoSuchLine() {
+    Due.each("13: no lines", n -> Made.withLines(0).rise(n), -1, LOWEST, -1, 0, 1, HIGHEST);
+    Due.each("13: eight lines", n -> Made.withLines(8).rise(n), -1, LOWEST, -1, 8, HIGHEST);
+  }
+
+  private static void riseWhenUp() {
+    Due.each("13: it is UP", n -> Made.withLines(8).rise(n), -5, 0, 1, 2, 3, 4, 5, 6, 7);
+    BundleLine x = Made.withLines(1);
+    x.fall(0);
+    Due.is("13: it is not UP", x.rise(0), 1);
+    Due.is("13: it is UP again", x.rise(0), -5);
+  }
+
+  private static void riseOfEachLine() {
     for (int n = 0; n < 8; n++) {
-      BundleLine x = withLines(8);
+      BundleLine x = Made.withLines(8);
       x.fall(n);
       for (int other = 0; other < 8; other++) {
         Due.is("13: only the one that fell", x.rise(other), other == n ? 1 : -5);
       }
       Due.is("13: UP again", x.line(n, 3), 1);
     }
-  }
-
-  // ---- 14: line, 15: piece, 16: lostOn
-
-  private static void lineAndPiece() {
-    lineNone();
-    pieceNone();
-    pieceNotLaid();
-    lostOnNone();
-    piecesOfAFullRow();
-  }
-
-  private static void lineNone() {
-    Due.each("14: no lines", n -> withLines(0).line(n, 0), NONE, LOWEST, -1, 0, 1, HIGHEST);
-    Due.each("14: no such line", n -> withLines(8).line(n, 0), NONE, LOWEST, -1, 8, HIGHEST);
-    Due.each("14: each line", n -> withLines(8).line(n, 0), 3, 0, 1, 2, 3, 4, 5, 6, 7);
-    Due.each("14: another what", w -> withLines(1).line(0, w), NONE, LOWEST, -1, 15, 16, HIGHEST);
-    Due.is("14: the least what", withLines(1).line(0, 0), 3);
-    Due.is("14: the greatest what", withLines(1).line(0, 14), 4);
-    for (int kind = 0; kind < 3; kind++) {
-      int[] row = Due.line(withLine(kind, 300, 1), 0, 13, 14);
-      Due.row("14: ALLOWANCE and SPAN of KIND " + kind, row, 0, 0);
-    }
-  }
-
-  private static void pieceNone() {
-    BundleLine x = withTray(3);
-    Due.each("15: no pieces", p -> x.piece(p, 0), NONE, LOWEST, -1, 0, 1, HIGHEST);
-    x.cut(2);
-    x.frame();
-    Due.each("15: no such piece", p -> x.piece(p, 0), NONE, LOWEST, -2, -1, 2, 3, HIGHEST);
-    Due.each("15: each piece", p -> x.piece(p, 0), 0, 0, 1);
-    Due.each("15: another what", w -> x.piece(1, w), NONE, LOWEST, -1, 7, 8, HIGHEST);
-    Due.is("15: the least what", x.piece(1, 0), 0);
-    Due.is("15: the greatest what", x.piece(1, 6), 1);
-  }
-
-  private static void pieceNotLaid() {
-    BundleLine x = withTray(3);
-    x.frame();
-    Due.is("15: NONE, as it was not laid", x.piece(0, 4), NONE);
-    Due.is("15: no TRIES", x.piece(0, 3), 0);
-    x.open(1, 1, 1);
-    x.tick(1);
-    Due.is("15: line 0, the least", x.piece(0, 4), 0);
-    Due.is("15: one TRY", x.piece(0, 3), 1);
-
-    BundleLine y = new BundleLine();
-    for (int i = 0; i < 8; i++) {
-      y.open(1, i == 7 ? 2 : 1, 1);
-    }
-    Due.frameOfSize(y, 3);
-    y.tick(1);
-    Due.is("15: line 7, the greatest", y.piece(0, 4), 7);
-    y.fall(7);
-    Due.is("15: LOST, it was laid there last", y.piece(0, 4), 7);
-    Due.is("16: on line 7, the greatest", y.lostOn(0, 7), 1);
-    Due.is("16: not on line 6", y.lostOn(0, 6), 0);
-    Due.is("16: not on line 0", y.lostOn(0, 0), 0);
-  }
-
-  private static void lostOnNone() {
-    BundleLine x = withLines(2);
-    Due.each("16: no pieces", p -> x.lostOn(p, 0), NONE, LOWEST, -1, 0, 1, HIGHEST);
-    x.type(1, 3);
-    x.cut(2);
-    x.frame();
-    Due.each("16: no such piece", p -> x.lostOn(p, 0), NONE, LOWEST, -2, -1, 2, HIGHEST);
-    Due.each("16: each piece", p -> x.lostOn(p, 0), 0, 0, 1);
-    Due.each("16: no such line", n -> x.lostOn(0, n), NONE, LOWEST, -1, 2, 7, 8, HIGHEST);
-    Due.each("16: each line", n -> x.lostOn(0, n), 0, 0, 1);
-    BundleLine y = withTray(1);
-    y.frame();
-    Due.each("16: no lines", n -> y.lostOn(0, n), NONE, LOWEST, -1, 0, 7, HIGHEST);
-    BundleLine z = withLines(8);
-    z.type(1, 1);
-    z.frame();
-    Due.each("16: no such line of eight", n -> z.lostOn(0, n), NONE, LOWEST, -1, 8, HIGHEST);
-    Due.is("16: never lost on line 7", z.lostOn(0, 7), 0);
-  }
-
-  private static void piecesOfAFullRow() {
-    BundleLine x = withTray(3000);
-    x.cut(1);
-    x.frame();
-    x.open(1, 1, 1);
-    Due.is("15: piece 2999", x.piece(2999, 0), 0);
-    Due.is("15: piece 3000", x.piece(3000, 0), NONE);
-    Due.is("16: piece 2999", x.lostOn(2999, 0), 0);
-    Due.is("16: piece 3000", x.lostOn(3000, 0), NONE);
-    Due.is("19: i 2999", x.waits(2999), 2999);
-    Due.is("19: i 3000", x.waits(3000), NONE);
-  }
-
-  // ---- 17: queued, 18: under, 19: waits
-
-  private static void rows() {
-    queuedNone();
-    queuedOfAFullQueue();
-    underNone();
-    underOfAFullRow();
-    waitsNone();
-  }
-
-  private static void queuedNone() {
-    Due.each("17: no lines", n -> withLines(0).queued(n, 0), NONE, LOWEST, -1, 0, 1, HIGHEST);
-    Due.each("17: an empty QUEUE", k -> withLines(1).queued(0, k), NONE, LOWEST, -1, 0, 1, HIGHEST);
-    BundleLine x = withLine(1, 1, 1);
-    x.cut(2);
-    Due.frameOfSize(x, 4);
-    x.tick(1);
-    Due.each("17: no such line", n -> x.queued(n, 0), NONE, LOWEST, -1, 1, 8, HIGHEST);
-    Due.each("17: no such piece", k -> x.queued(0, k), NONE, LOWEST, -1, 2, 3, 64, HIGHEST);
-    Due.is("17: the least k", x.queued(0, 0), 0);
-    Due.is("17: the greatest k", x.queued(0, 1), 1);
-  }
-
-  private static void queuedOfAFullQueue() {
-    BundleLine x = withLine(1, 1, 1);
-    x.cut(2);
-    Due.frameOfSize(x, 160);
-    for (int i = 0; i < 35; i++) {
-      x.tick(2);
-      Due.is("17: a full QUEUE", x.line(0, 4), 39);
-      Due.is("17: k 0 of it", x.queued(0, 0), i + 1);
-      Due.is("17: k 38 of it", x.queued(0, 38), i + 39);
-      Due.is("17: k 39 is not there", x.queued(0, 39), NONE);
-    }
-    x.tick(1);
-    Due.is("17: k 39", x.queued(0, 39), 74);
-    Due.is("17: k 40", x.queued(0, 40), NONE);
-  }
-
-  private static void underNone() {
-    Due.each("18: no lines", n -> withLines(0).under(n, 0, 0), NONE, LOWEST, -1, 0, 1, HIGHEST);
-    Due.each("18: none UNDER WAY", k -> withLines(1).under(0, k, 0), NONE, LOWEST, -1, 0, 1, HIGHEST);
-    BundleLine x = withTwoUnderWay(0);
-    Due.each("18: no such line", n -> x.under(n, 0, 0), NONE, LOWEST, -1, 1, 8, HIGHEST);
-    Due.each("18: no such piece", k -> x.under(0, k, 0), NONE, LOWEST, -1, 2, 3, 256, HIGHEST);
-    Due.each("18: no such what", w -> x.under(0, 0, w), NONE, LOWEST, -1, 4, 5, HIGHEST);
-    Due.is("18: the least k, the least what", x.under(0, 0, 0), 0);
-    Due.is("18: the greatest k, the greatest what", x.under(0, 1, 3), 0);
-  }
-
-  private static void underOfAFullRow() {
-    BundleLine x = withLine(1, 40, 40);
-    x.cut(1);
-    Due.frameOfSize(x, 300);
-    x.tick(40);
-    Due.is("18: 200 UNDER WAY", x.line(0, 6), 200);
-    Due.is("18: k 0", x.under(0, 0, 1), 0);
-    Due.is("18: k 199", x.under(0, 199, 1), 199);
-    Due.is("18: k 200", x.under(0, 200, 1), NONE);
-    x.tick(2);
-    // 80 came at TIME 41 and 42; 40 were sent at 42, as a full row sends none at 41.
-    Due.is("18: 160 UNDER WAY", x.line(0, 6), 160);
-    Due.is("18: k 0 then", x.under(0, 0, 1), 80);
-    Due.is("18: k 159", x.under(0, 159, 1), 239);
-    Due.is("18: k 160", x.under(0, 160, 1), NONE);
-    x.tick(1);
-    Due.is("18: count 279", x.under(0, 159, 1), 279);
-    Due.is("18: it comes at 83", x.under(0, 159, 2), 83);
-  }
-
-  private static void waitsNone() {
-    BundleLine x = new BundleLine();
-    Due.each("19: none waits", x::waits, NONE, LOWEST, -1, 0, 1, HIGHEST);
-    x.cut(2);
-    Due.frameOfSize(x, 6);
-    Due.each("19: no i-th one", x::waits, NONE, LOWEST, -1, 3, 4, HIGHEST);
-    Due.row("19: each one", new int[] {x.waits(0), x.waits(1), x.waits(2)}, 0, 1, 2);
-    x.open(1, 10, 1);
-    x.tick(1);
-    Due.each("19: all are laid", x::waits, NONE, LOWEST, -1, 0, 1, HIGHEST);
-    x.fall(0);
-    x.cut(1);
-    Due.frameOfSize(x, 1);
-    Due.row("19: LOST, then NEW", new int[] {x.waits(2), x.waits(3), x.waits(4)}, 2, 3, NONE);
-    x.rise(0);
-    x.tick(2);
-    Due.each("19: all are THERE", x::waits, NONE, LOWEST, -1, 0, 1, HIGHEST);
-  }
-
-  // ---- 20: got
-
-  private static void got() {
-    gotNoSuchFrame();
-    gotNotGiven();
-    gotNoSuchByte();
-    gotOfTheLatest20();
-    gotOf4000();
-  }
-
-  private static void gotNoSuchFrame() {
-    Due.each("20: no frames", f -> withTray(3).got(f, 0), -1, LOWEST, -1, 0, 1, HIGHEST);
-    BundleLine x = withLine(0, 1000, 1);
-    Due.smallFrames(x, 2);
-    x.tick(2);
-    Due.each("20: no such frame", f -> x.got(f, 0), -1, LOWEST, -1, 2, 3, HIGHEST);
-    Due.is("20: the least frame", x.got(0, 0), 0);
-    Due.is("20: the greatest frame", x.got(1, 0), 1);
-  }
-
-  private static void gotNotGiven() {
-    BundleLine x = withLine(0, 250, 1);
-    Due.frameOfSize(x, 251);
-    int[] any = {LOWEST, -2, -1, 0, 250, 251, HIGHEST};
-    Due.each("20: it is not GIVEN", i -> x.got(0, i), -3, any);
-    x.tick(2);
-    Due.is("20: its first piece is THERE", x.frameOf(0, 3), 1);
-    Due.each("20: it is not GIVEN yet", i -> x.got(0, i), -3, any);
-    x.tick(1);
-    Due.is("20: it is GIVEN", x.got(0, 250), 2);
-  }
-
-  private static void gotNoSuchByte() {
-    BundleLine x = withLine(0, 1000, 1);
-    x.type(0xFF0080, 3);
-    x.frame();
-    x.tick(2);
-    Due.is("20: i -1", x.got(0, -1), 3);
-    Due.row("20: each byte", new int[] {x.got(0, 0), x.got(0, 1), x.got(0, 2)}, 255, 0, 128);
-    Due.each("20: no such byte", i -> x.got(0, i), -3, LOWEST, -3, -2, 3, 4, HIGHEST);
-  }
-
-  private static void gotOfTheLatest20() {
-    BundleLine x = withLine(1, 1, 1);
-    Due.smallFrames(x, 23);
-    x.tick(20);
-    // One each tick from TIME 2 on.
-    Due.is("20: 19 were GIVEN", x.status(3), 19);
-    Due.is("20: the first of 19", x.got(0, 0), 0);
-    x.tick(1);
-    Due.is("20: the first of 20", x.got(0, 0), 0);
-    Due.is("20: the last of 20", x.got(19, 0), 19);
-    Due.is("20: the next is not GIVEN", x.got(20, 0), -3);
-    x.tick(1);
-    Due.each("20: not kept any more", i -> x.got(0, i), -3, LOWEST, -1, 0, 1, HIGHEST);
-    Due.is("20: the second of 21", x.got(1, 0), 1);
-    Due.is("20: the last of 21", x.got(20, 0), 20);
-    x.tick(1);
-    Due.is("20: the second of 22", x.got(1, 0), -3);
-    Due.is("20: the third of 22", x.got(2, -1), 1);
-    Due.is("20: the first of 22, still", x.got(0, 0), -3);
-  }
-
-  private static void gotOf4000() {
-    BundleLine x = withLine(0, 1000, 1);
-    x.type(0x0102030405060708L, 7);
-    x.grow(4000);
-    x.frame();
-    x.tick(5);
-    Due.is("20: 4000 bytes", x.got(0, -1), 4000);
-    Due.is("20: byte 0", x.got(0, 0), 2);
-    // 3999 is 571 times 7 and 2.
-    Due.is("20: byte 3999", x.got(0, 3999), 4);
-    Due.is("20: byte 4000", x.got(0, 4000), -3);
-  }
-
-  // ---- 21: frameOf, 22: credit, 23: skew
-
-  private static void frameOf() {
-    Due.each("21: no frames", f -> withTray(3).frameOf(f, 0), NONE, LOWEST, -1, 0, 1, HIGHEST);
-    BundleLine x = withLine(0, 1000, 1);
-    Due.smallFrames(x, 2);
-    Due.each("21: no such frame", f -> x.frameOf(f, 0), NONE, LOWEST, -1, 2, 3, HIGHEST);
-    Due.each("21: each frame", f -> x.frameOf(f, 0), 1, 0, 1);
-    Due.each("21: another what", w -> x.frameOf(0, w), NONE, LOWEST, -1, 5, 6, HIGHEST);
-    Due.is("21: not GIVEN", x.frameOf(1, 4), NONE);
-    Due.is("21: none THERE", x.frameOf(1, 3), 0);
-    x.tick(2);
-    Due.is("21: GIVEN at TIME 2", x.frameOf(1, 4), 2);
-    Due.is("21: all THERE", x.frameOf(1, 3), 1);
-    x.tick(20);
-    Due.is("21: it was at TIME 2", x.frameOf(1, 4), 2);
-  }
-
-  private static void credit() {
-    BundleLine x = withLine(1, 1, 1);
-    x.room(4000);
-    Due.is("22: all of ROOM", x.credit(), 4000);
-    x.type(1, 1);
-    x.grow(3999);
-    x.frame();
-    x.tick(1);
-    Due.is("22: 1 is left", x.credit(), 1);
-    x.type(1, 1);
-    x.frame();
-    x.tick(1);
-    Due.is("22: 0 is left", x.credit(), 0);
-
-    BundleLine y = withLine(1, 1, 1);
-    y.room(4001);
-    y.type(1, 1);
-    y.grow(4000);
-    y.frame();
-    y.tick(1);
-    y.type(1, 1);
-    y.frame();
-    y.tick(1);
-    y.room(4000);
-    Due.is("22: below 0", y.credit(), -1);
-    y.room(20000);
-    Due.is("22: the greatest ROOM", y.credit(), 15999);
-  }
-
-  private static void skew() {
-    Due.is("23: no pieces", new BundleLine().skew(), 0);
-    BundleLine x = withLine(1, 1, 1);
-    x.cut(1);
-    Due.frameOfSize(x, 3);
-    Due.is("23: none is THERE", x.skew(), 0);
-    x.tick(2);
-    Due.is("23: 0 less 1", x.skew(), -1);
-    x.tick(1);
-    Due.is("23: 1 less 2", x.skew(), -1);
-    x.tick(1);
-    Due.is("23: all are GIVEN", x.skew(), 0);
-    Due.frameOfSize(x, 2);
-    Due.is("23: none of a frame that is not GIVEN", x.skew(), 0);
-    skewOverTwoLines();
-  }
-
-  private static void skewOverTwoLines() {
-    BundleLine x = withLine(1, 10, 40);
-    x.open(1, 1, 1);
-    x.cut(20);
-    Due.frameOfSize(x, 20);
-    x.cut(1);
-    Due.frameOfSize(x, 2);
-    // 0 goes over line 0 in 2 ticks; 1 and 2 over line 1 in 1 and 2, as line 0 would take 3.
-    x.tick(2);
-    Due.is("23: 1 less 0", x.skew(), 1);
-    x.tick(1);
-    Due.is("23: 2 less 0", x.skew(), 2);
-    Due.is("23: the second frame is not GIVEN", x.status(3), 0);
-    x.tick(38);
-    Due.is("23: at TIME 41", x.skew(), 2);
-    x.tick(1);
-    Due.is("23: both are GIVEN", x.skew(), 0);
-  }
-
-  // ---- 24: witness, 25: check, 26: status
-
-  private static void witness() {
-    BundleLine x = withLine(0, 1000, 1);
-    Due.each("24: no frames", f -> x.witness(f, 0), NONE, LOWEST, -1, 0, 1, HIGHEST);
-    x.cut(1);
-    Due.frameOfSize(x, 2);
-    Due.each("24: it is not GIVEN", k -> x.witness(0, k), NONE, LOWEST, -1, 0, 1, 2, HIGHEST);
-    x.tick(2);
-    Due.each("24: no such frame", f -> x.witness(f, 0), NONE, LOWEST, -1, 1, 2, HIGHEST);
-    Due.each("24: no such piece", k -> x.witness(0, k), NONE, LOWEST, -1, 2, 3, HIGHEST);
-    Due.each("24: each piece", k -> x.witness(0, k), 100, 0, 1);
-    witnessOfTheGreatestLine();
-    witnessOfManyTries();
-  }
-
-  private static void witnessOfTheGreatestLine() {
-    BundleLine x = new BundleLine();
-    for (int i = 0; i < 8; i++) {
-      x.open(1, i == 7 ? 2 : 1, 1);
-    }
-    Due.frameOfSize(x, 2);
-    x.tick(2);
-    Due.is("24: over line 7", x.witness(0, 0), 107);
-  }
-
-  private static void witnessOfManyTries() {
-    BundleLine x = withLine(1, 1, 1);
-    x.type(1, 1);
-    x.frame();
-    for (int i = 0; i < 120; i++) {
-      x.tick(1);
-      x.fall(0);
-      x.rise(0);
-    }
-    x.tick(2);
-    Due.is("24: 121 TRIES", x.witness(0, 0), 12100);
-    Due.is("16: lost 120 times", x.lostOn(0, 0), 120);
-  }
-
-  private static void check() {
-    Due.each("25: there is none", f -> withTray(1).check(f, 0) ? 1 : 0, 0, LOWEST, -1, 0, 1, HIGHEST);
-    BundleLine x = withLine(0, 1000, 1);
-    x.type(1, 1);
-    x.frame();
-    Due.each("25: it is not GIVEN", s -> x.check(0, s) ? 1 : 0, 0, LOWEST, -1, 0, 100, NONE, HIGHEST);
-    x.tick(2);
-    Due.is("25: just this one sum", x.check(0, 100), true);
-    Due.each("25: another sum", s -> x.check(0, s) ? 1 : 0, 0, LOWEST, 0, 99, 101, HIGHEST);
-    Due.each("25: no such frame", f -> x.check(f, 100) ? 1 : 0, 0, LOWEST, -1, 1, HIGHEST);
-    checkGoesRound();
-  }
-
-  /** Five numbers of 100 stay below the greatest int; six go round, and are below 0 then. */
-  private static void checkGoesRound() {
-    int[] sums = {100, 3200, 99300, 3078400, 95430500, -1336621696};
-    BigInteger v = BigInteger.ZERO;
-    for (int many = 1; many <= 40; many++) {
-      v = v.multiply(BigInteger.valueOf(31)).add(BigInteger.valueOf(100));
-      BundleLine x = withLine(0, 1000, 1);
-      x.cut(1);
-      Due.frameOfSize(x, many);
-      x.tick(2);
-      Due.is("25: it goes round with " + many, x.check(0, v.intValue()), true);
-      Due.is("25: one bit is another one", x.check(0, v.intValue() ^ LOWEST), false);
-      Due.is("25: one more", x.check(0, v.intValue() + 1), false);
-      if (many <= sums.length) {
-        Due.is("25: worked out for " + many, x.check(0, sums[many - 1]), true);
-      }
-    }
-  }
-
-  private static void status() {
-    int[] others = {LOWEST, -1, 13, 14, 19, 20, 27, 28, HIGHEST};
-    Due.each("26: another what", w -> Scene.made().status(w), NONE, others);
-    BundleLine x = withLine(1, 1, 1);
-    Due.is("26: the least what", x.status(0), 0);
-    x.tick(1);
-    Due.is("26: TIME", x.status(0), 1);
-    Due.is("26: the greatest what before 13", x.status(12), 0);
-    statusOfAFullTray();
-  }
-
-  private static void statusOfAFullTray() {
-    BundleLine x = withTray(0);
-    Due.is("26: an empty TRAY", x.status(8), 0);
-    x.type(1, 1);
-    x.grow(4000);
-    Due.is("26: a full TRAY", x.status(8), 4000);
-    x.frame();
-    Due.is("26: an empty TRAY again", x.status(8), 0);
-    x.open(0, 1000, 1);
-    x.tick(5);
-    Due.is("26: bytes of GIVEN frames", x.status(9), 4000);
   }
 }
