@@ -137,7 +137,7 @@ public final class BundleLine {
 
   public int grow(int n) {
     int had = trayLength;
-    if (had == 0) {
+    if (had < 1) {
       return refuse(BEYOND);
     }
     if (n < had) {
@@ -155,10 +155,10 @@ public final class BundleLine {
 
   public int frame() {
     int size = trayLength;
-    if (size == 0) {
+    if (size < 1) {
       return refuse(BEYOND);
     }
-    int row = (size + cutSize - 1) / cutSize;
+    int row = piecesOf(size);
     boolean tooMany = frameCount >= MOST_FRAMES || pieceCount + row > MOST_PIECES;
     if (tooMany || frameCount - givenFrames >= MOST_NOT_GIVEN) {
       return refuse(ABOVE);
@@ -171,6 +171,10 @@ public final class BundleLine {
     return frameCount - 1;
   }
 
+  private int piecesOf(int size) {
+    return cutSize < 1 ? 0 : (size + cutSize - 1) / cutSize;
+  }
+
   private void cutIntoPieces(Frame made) {
     for (int k = 0; k < made.row; k++) {
       int from = k * cutSize;
@@ -178,7 +182,7 @@ public final class BundleLine {
       boolean isLast = k == made.row - 1;
       pieces[pieceCount] = new Piece(frameCount, size, isLast, made.sumOf(from, size));
       pieceCount++;
-      inState[NEW]++;
+      countInState(NEW, 1);
     }
   }
 
@@ -384,9 +388,15 @@ public final class BundleLine {
   }
 
   private void become(Piece piece, int state) {
-    inState[piece.state]--;
-    inState[state]++;
+    countInState(piece.state, -1);
+    countInState(state, 1);
     piece.state = state;
+  }
+
+  private void countInState(int state, int more) {
+    if (state >= 0 && state < inState.length) {
+      inState[state] += more;
+    }
   }
 
   // ---- what befalls the lines

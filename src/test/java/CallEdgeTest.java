@@ -136,6 +136,7 @@ final class CallEdgeTest {
     leaseSpanBelow();
     leaseAllowanceAbove();
     leaseSpanAbove();
+    leaseOfOneThatIsNotUp();
   }
 
   private static void leaseNoSuchLine() {
@@ -184,6 +185,20 @@ final class CallEdgeTest {
     Due.row("3: a span of 20, asked", Due.line(x, 0, 13, 14), 300, 20);
     Due.each("3: a span above 20", n -> x.lease(0, 400, n), -6, 21, HIGHEST);
     Due.row("3: a span above 20, asked", Due.line(x, 0, 13, 14), 300, 20);
+  }
+
+  /** No REFUSAL of lease() is for that. */
+  private static void leaseOfOneThatIsNotUp() {
+    BundleLine x = Made.withLines(1);
+    x.fall(0);
+    Due.is("3: it is not UP", x.lease(0, 300, 5), 1);
+    Due.row("3: it is not UP, asked", Due.line(x, 0, 3, 13, 14), 0, 300, 5);
+    Due.each("3: it is not UP, below", n -> x.lease(0, n, 5), -4, LOWEST, 249);
+    x.rise(0);
+    Due.row("3: it is UP again, asked", Due.line(x, 0, 3, 13, 14), 1, 300, 5);
+    Due.frameOfSize(x, 1000);
+    x.tick(5);
+    Due.is("3: 300 in 5 ticks", x.line(0, 9), 300);
   }
 
   // ---- 4: type
@@ -297,7 +312,9 @@ final class CallEdgeTest {
     frameOfOneByteAndOf4000();
     frameIsCut();
     frameAbovePieces();
+    frameAbovePiecesEver();
     frameAboveNotGiven();
+    frameAboveNotGivenBehindAGreatOne();
     frameAboveFrames();
     frameSums();
   }
@@ -377,6 +394,23 @@ final class CallEdgeTest {
     Due.is("6: 3001 pieces of one frame", z.frame(), -6);
   }
 
+  /** Those of GIVEN frames count, too. */
+  private static void frameAbovePiecesEver() {
+    BundleLine x = Made.withLine(0, 1000, 1);
+    x.cut(1);
+    Due.frameOfSize(x, 2999);
+    Due.is("6: 2999 pieces of a GIVEN frame", x.tick(76), 1);
+    x.type(5, 2);
+    Due.is("6: 3001 pieces ever", x.frame(), -6);
+    Due.row("6: 3001 pieces ever, as it was", Due.status(x, 2, 4, 7, 8), 1, 2999, 0, 2);
+    x.cut(2);
+    Due.is("6: 3000 pieces ever", x.frame(), 1);
+    Due.is("6: 3000 pieces, all GIVEN", x.tick(2), 1);
+    x.type(5, 1);
+    Due.is("6: the 3001st piece ever", x.frame(), -6);
+    Due.row("6: the 3001st piece ever, as it was", Due.status(x, 2, 3, 4, 8), 2, 2, 3000, 1);
+  }
+
   private static void frameAboveNotGiven() {
     BundleLine x = new BundleLine();
     Due.smallFrames(x, 99);
@@ -392,15 +426,27 @@ final class CallEdgeTest {
     Due.is("6: 100 are not GIVEN again", x.frame(), -6);
   }
 
+  /** Frames are counted, neither their pieces nor their bytes. */
+  private static void frameAboveNotGivenBehindAGreatOne() {
+    BundleLine x = Made.withAGreatFrameGiven();
+    Due.smallFrames(x, 100);
+    x.type(1, 1);
+    Due.is("6: one is GIVEN, 100 are not", x.frame(), -6);
+    Due.row("6: one is GIVEN, 100 are not, asked", Due.status(x, 2, 3, 8), 101, 1, 1);
+  }
+
   /** No 512 calls make so many: each one takes a type() and a frame(). */
   private static void frameAboveFrames() {
     BundleLine x = Made.withLine(0, 1000, 1);
     for (int i = 0; i < 10; i++) {
-      Due.smallFrames(x, 30);
       x.tick(2);
+      Due.smallFrames(x, 30);
     }
+    x.type(7, 1);
+    Due.is("6: the 301st, as some are not GIVEN", x.frame(), -6);
+    Due.row("6: some are not GIVEN", Due.status(x, 2, 3, 4, 8), 300, 270, 300, 1);
+    x.tick(2);
     Due.row("6: 300 frames", Due.status(x, 2, 3), 300, 300);
-    x.type(1, 1);
     Due.is("6: the 301st", x.frame(), -6);
     Due.row("6: the 301st, as it was", Due.status(x, 2, 3, 4, 8), 300, 300, 300, 1);
     Due.row("21: frames 299 and 300", new int[] {x.frameOf(299, 0), x.frameOf(300, 0)}, 1, NONE);

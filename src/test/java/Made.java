@@ -73,4 +73,24 @@ final class Made {
     x.tick(2);
     return x;
   }
+
+  /** Frame 0 is LOST; all of frames 1 and 2 is THERE. All are GIVEN two ticks later, at TIME 4. */
+  static BundleLine withTwoBehindOneThatIsLost() {
+    BundleLine x = withLine(2, 3, 1);
+    Due.smallFrames(x, 3);
+    x.tick(1);
+    x.lose(0);
+    x.tick(1);
+    return x;
+  }
+
+  /** Frame 0, of 50 pieces and 250 bytes, is GIVEN at TIME 3; frames that come have pieces of 1. */
+  static BundleLine withAGreatFrameGiven() {
+    BundleLine x = withLine(2, 1000, 1);
+    x.cut(5);
+    Due.frameOfSize(x, 250);
+    x.tick(3);
+    x.cut(1);
+    return x;
+  }
 }

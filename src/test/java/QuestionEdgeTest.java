@@ -147,6 +147,7 @@ final class QuestionEdgeTest {
     waitsOfAnEmptyRow();
     waitsOfLostAndNewOnes();
     waitsWithoutLinesOrCredit();
+    waitsBehindAGreatFrame();
   }
 
   private static void queuedNoSuchLine() {
@@ -279,11 +280,30 @@ final class QuestionEdgeTest {
     Due.row("19: a line is UP", new int[] {x.waits(0), x.waits(16), x.waits(17)}, 0, 16, NONE);
   }
 
+  /** Two bytes are LOST and one is NEW, behind 50 pieces that are GIVEN; the TRAY is full. */
+  private static void waitsBehindAGreatFrame() {
+    BundleLine x = Made.withAGreatFrameGiven();
+    Due.frameOfSize(x, 2);
+    x.tick(1);
+    x.fall(0);
+    Due.frameOfSize(x, 1);
+    x.type(1, 1);
+    x.grow(4000);
+    int[] row = {x.waits(0), x.waits(1), x.waits(2), x.waits(3)};
+    Due.row("19: LOST, then NEW, numbers through all frames", row, 50, 51, 52, NONE);
+    x.rise(0);
+    x.tick(1);
+    Due.is("19: all are laid", x.waits(0), NONE);
+    Due.row("15: TRIES", new int[] {x.piece(50, 3), x.piece(51, 3), x.piece(52, 3)}, 2, 2, 1);
+  }
+
   // ---- 20: got
 
   private static void got() {
     gotNoSuchFrame();
     gotNotGiven();
+    gotBehindOneThatIsNotGiven();
+    gotBehindAGreatFrame();
     gotNoSuchByte();
     gotOfTheLatest20();
     gotOf4000();
@@ -309,6 +329,42 @@ final class QuestionEdgeTest {
     Due.each("20: it is not GIVEN yet", i -> x.got(0, i), -3, any);
     x.tick(1);
     Due.is("20: it is GIVEN", x.got(0, 250), 2);
+  }
+
+  /** All that came of them is no matter, nor how far behind they are. */
+  private static void gotBehindOneThatIsNotGiven() {
+    BundleLine x = Made.withTwoBehindOneThatIsLost();
+    int[] any = {LOWEST, -2, -1, 0, 1, HIGHEST};
+    for (int frame = 0; frame < 3; frame++) {
+      int of = frame;
+      Due.each("20: not GIVEN, frame " + of, i -> x.got(of, i), -3, any);
+    }
+    x.tick(2);
+    for (int frame = 0; frame < 3; frame++) {
+      Due.is("20: GIVEN, frame " + frame, x.got(frame, 0), frame);
+    }
+  }
+
+  /** Frames are counted, neither their pieces nor their bytes. */
+  private static void gotBehindAGreatFrame() {
+    BundleLine x = Made.withAGreatFrameGiven();
+    Due.smallFrames(x, 2);
+    x.tick(1);
+    Due.is("20: the great one", x.got(0, -1), 250);
+    Due.is("20: not GIVEN, the next one", x.got(1, 0), -3);
+    Due.is("20: not GIVEN, the last one", x.got(2, -1), -3);
+    Due.is("24: not GIVEN, the next one", x.witness(1, 0), NONE);
+    Due.is("25: not GIVEN, the next one", x.check(1, 100), false);
+    for (int i = 3; i < 20; i++) {
+      Due.smallFrames(x, 1);
+    }
+    x.tick(2);
+    Due.row("26: GIVEN", Due.status(x, 3, 5, 9), 20, 69, 269);
+    Due.is("20: the great one is the first of 20", x.got(0, 249), 1);
+    Due.smallFrames(x, 1);
+    x.tick(2);
+    Due.is("20: the great one is the first of 21", x.got(0, 249), -3);
+    Due.is("20: the last one of 21", x.got(20, 0), 0);
   }
 
   private static void gotNoSuchByte() {
@@ -361,6 +417,7 @@ final class QuestionEdgeTest {
     frameOfNoSuchFrame();
     frameOfAnotherWhat();
     frameOfOneThatIsNotGiven();
+    frameOfOneBehindIt();
   }
 
   private static void frameOfNoSuchFrame() {
@@ -392,9 +449,31 @@ final class QuestionEdgeTest {
     Due.is("21: it was at TIME 2", x.frameOf(1, 4), 2);
   }
 
+  private static void frameOfOneBehindIt() {
+    BundleLine x = Made.withTwoBehindOneThatIsLost();
+    for (int frame = 1; frame < 3; frame++) {
+      Due.is("21: all THERE, frame " + frame, x.frameOf(frame, 3), 1);
+      Due.is("21: not GIVEN, frame " + frame, x.frameOf(frame, 4), NONE);
+    }
+    Due.row("26: GIVEN, THERE, bytes of GIVEN frames", Due.status(x, 3, 5, 9), 0, 2, 0);
+    x.tick(2);
+    for (int frame = 0; frame < 3; frame++) {
+      Due.is("21: GIVEN at TIME 4, frame " + frame, x.frameOf(frame, 4), 4);
+    }
+    Due.row("26: GIVEN, THERE, bytes of GIVEN frames then", Due.status(x, 3, 5, 9), 3, 3, 3);
+  }
+
   private static void credit() {
     creditDownTo0();
     creditBelow0();
+    creditBehindOneThatIsNotGiven();
+  }
+
+  private static void creditBehindOneThatIsNotGiven() {
+    BundleLine x = Made.withTwoBehindOneThatIsLost();
+    Due.is("22: of no frame that is GIVEN", x.credit(), 7997);
+    x.tick(2);
+    Due.is("22: all are GIVEN", x.credit(), 8000);
   }
 
   private static void creditDownTo0() {
@@ -434,6 +513,26 @@ final class QuestionEdgeTest {
     skewOfMinus1();
     skewOfGivenFrames();
     skewOverTwoLines();
+    skewBehindOneThatIsNotGiven();
+    skewBehindAGreatFrame();
+  }
+
+  private static void skewBehindAGreatFrame() {
+    BundleLine x = Made.withAGreatFrameGiven();
+    Due.frameOfSize(x, 4);
+    x.tick(1);
+    x.lose(0);
+    x.tick(1);
+    Due.is("23: 53 less 50", x.skew(), 3);
+    x.tick(2);
+    Due.is("23: both frames are GIVEN", x.skew(), 0);
+  }
+
+  private static void skewBehindOneThatIsNotGiven() {
+    BundleLine x = Made.withTwoBehindOneThatIsLost();
+    Due.is("23: 2 less 0", x.skew(), 2);
+    x.tick(2);
+    Due.is("23: all are GIVEN then", x.skew(), 0);
   }
 
   private static void skewOfNone() {
@@ -486,6 +585,7 @@ final class QuestionEdgeTest {
   private static void witness() {
     witnessNoSuchFrame();
     witnessNotGiven();
+    witnessBehindOneThatIsNotGiven();
     witnessNoSuchPiece();
     witnessOfTheGreatestLine();
     witnessOfManyTries();
@@ -507,6 +607,14 @@ final class QuestionEdgeTest {
     Due.each("24: it is not GIVEN yet", k -> x.witness(0, k), NONE, any);
     x.tick(1);
     Due.each("24: it is GIVEN", k -> x.witness(0, k), 100, 0, 1, 2);
+  }
+
+  private static void witnessBehindOneThatIsNotGiven() {
+    BundleLine x = Made.withTwoBehindOneThatIsLost();
+    Due.each("24: it is THERE, not GIVEN", f -> x.witness(f, 0), NONE, 0, 1, 2);
+    x.tick(2);
+    int[] row = {x.witness(0, 0), x.witness(1, 0), x.witness(2, 0)};
+    Due.row("24: all are GIVEN", row, 200, 100, 100);
   }
 
   private static void witnessNoSuchPiece() {
@@ -545,6 +653,7 @@ final class QuestionEdgeTest {
   private static void check() {
     checkNoSuchFrame();
     checkNotGiven();
+    checkBehindOneThatIsNotGiven();
     checkOfAnotherSum();
     checkGoesRound();
   }
@@ -570,6 +679,19 @@ final class QuestionEdgeTest {
     Due.each("25: it is not GIVEN yet", s -> checked(x, 0, s), 0, any);
     x.tick(1);
     Due.is("25: it is GIVEN", x.check(0, 99300), true);
+  }
+
+  private static void checkBehindOneThatIsNotGiven() {
+    BundleLine x = Made.withTwoBehindOneThatIsLost();
+    int[] any = {LOWEST, NONE, -1, 0, 100, 200, HIGHEST};
+    for (int frame = 0; frame < 3; frame++) {
+      int of = frame;
+      Due.each("25: not GIVEN, frame " + of, s -> checked(x, of, s), 0, any);
+    }
+    x.tick(2);
+    Due.is("25: frame 0, GIVEN", x.check(0, 200), true);
+    Due.is("25: frame 1, GIVEN", x.check(1, 100), true);
+    Due.is("25: frame 2, GIVEN", x.check(2, 100), true);
   }
 
   private static void checkOfAnotherSum() {

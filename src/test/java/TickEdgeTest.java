@@ -363,9 +363,11 @@ final class TickEdgeTest {
 
   private static void layingOnWhichLine() {
     whichTicksUp();
+    whichTicksUpOfOneThatRested();
     whichLeastCarried();
     whichLeastNumber();
     whichLeastLost();
+    whichLeastLostOfThree();
     whichLostOnesBySpeed();
     whichBySpeedOfALeasedOne();
   }
@@ -387,6 +389,22 @@ final class TickEdgeTest {
     Due.frameOfSize(z, 9);
     z.tick(1);
     Due.is("LAYING: 1 tick and 1", z.piece(0, 4), 0);
+  }
+
+  /** How often it rested or refused is no matter. */
+  private static void whichTicksUpOfOneThatRested() {
+    BundleLine x = withLine(1, 10, 1, 250);
+    x.type(1, 1);
+    x.frame();
+    x.tick(1);
+    x.bend(0, 0, 1);
+    x.tick(5);
+    Due.row("LAYING: it refused, rested, and is heard",
+        Due.line(x, 0, 4, 6, 7, 8, 11, 12), 0, 0, 3, 3, 1, 1);
+    x.open(1, 9, 1);
+    Due.frameOfSize(x, 10);
+    x.tick(1);
+    Due.is("LAYING: 1 tick and 2", x.piece(1, 4), 0);
   }
 
   private static void whichLeastCarried() {
@@ -443,6 +461,36 @@ final class TickEdgeTest {
     Due.frameOfSize(x, 250);
     x.tick(1);
     Due.is("LAYING: a NEW one, though others were lost there", x.piece(1, 4), 0);
+  }
+
+  /** The fastest line is the one on which it was lost; that one is the last, then the second. */
+  private static void whichLeastLostOfThree() {
+    BundleLine x = withLine(1, 1, 1, 250);
+    x.open(1, 1, 1);
+    x.open(1, 1000, 1);
+    Due.frameOfSize(x, 250);
+    x.tick(1);
+    Due.is("LAYING: NEW, on the fastest", x.piece(0, 4), 2);
+    x.fall(2);
+    x.rise(2);
+    x.tick(1);
+    Due.is("LAYING: lost on 2, of 0 and 1 the least number", x.piece(0, 4), 0);
+    x.fall(0);
+    x.rise(0);
+    x.tick(1);
+    Due.is("LAYING: lost on 2 and 0", x.piece(0, 4), 1);
+
+    BundleLine y = withLine(1, 1, 1, 250);
+    y.open(1, 1000, 1);
+    y.open(1, 1, 1);
+    y.fall(0);
+    Due.frameOfSize(y, 250);
+    y.tick(1);
+    Due.is("LAYING: NEW, on the faster one of 1 and 2", y.piece(0, 4), 1);
+    y.fall(1);
+    y.rise(1);
+    y.tick(1);
+    Due.is("LAYING: lost on 1, and 0 is not UP", y.piece(0, 4), 2);
   }
 
   private static void whichLostOnesBySpeed() {
@@ -766,6 +814,8 @@ final class TickEdgeTest {
     comingOfALostBentOne();
     comingOfEmpties();
     comingAfterThousands();
+    comingAfterHundredsThatWereLost();
+    fallingAfterHundredsThatWereLost();
   }
 
   private static BundleLine withThreeUnderWay() {
@@ -877,6 +927,46 @@ final class TickEdgeTest {
         new int[] {x.waits(0), x.waits(11), x.waits(12)}, 2010, 2021, 2090);
     Due.is("COMING: all", x.tick(40), 1);
     Due.row("COMING: 3042 were sent and heard", Due.line(x, 0, 7, 8, 9, 10), 3042, 3042, 3042, 42);
+  }
+
+  /**
+   * 400 are no more, of which none is known to be lost; 200 are UNDER WAY; TIME is 19. It takes some
+   * 410 calls, so that it can be met within 512.
+   */
+  private static BundleLine with600Unheard() {
+    BundleLine x = withLine(2, 1000, 6, 1);
+    Due.frameOfSize(x, 3000);
+    x.tick(5);
+    for (int i = 0; i < 400; i++) {
+      // 200 are all that may be UNDER WAY: those of TIME 1 .. 5 come at 7 .. 11.
+      if (i == 200) {
+        x.tick(7);
+      }
+      Due.is("COMING: lost, one of hundreds", x.lose(0), i);
+    }
+    x.tick(7);
+    Due.row("COMING: 600 unheard", Due.line(x, 0, 4, 6, 7, 8, 10), 0, 200, 600, 0, 0);
+    return x;
+  }
+
+  private static void comingAfterHundredsThatWereLost() {
+    BundleLine x = with600Unheard();
+    x.tick(2);
+    Due.row("COMING: count 400 tells of 400", Due.line(x, 0, 6, 7, 8, 10), 160, 600, 440, 400);
+    Due.row("COMING: 40 are THERE, 400 LOST", Due.status(x, 5, 6), 40, 400);
+    Due.row("COMING: the first two of them", stateOf(x, 0, 2), 2, 2);
+    Due.row("COMING: the last of them and the next", stateOf(x, 399, 401), 2, 3);
+    Due.row("COMING: 400 wait", new int[] {x.waits(0), x.waits(399), x.waits(400)}, 0, 399, 640);
+  }
+
+  private static void fallingAfterHundredsThatWereLost() {
+    BundleLine x = with600Unheard();
+    Due.is("COMING: a line falls with 600 unheard", x.fall(0), 600);
+    Due.row("COMING: it fell", Due.line(x, 0, 4, 6, 7, 8, 10), 0, 0, 600, 600, 600);
+    Due.row("COMING: all of them are LOST", Due.status(x, 5, 6, 7), 0, 600, 2400);
+    int[] often = {x.lostOn(0, 0), x.lostOn(87, 0), x.lostOn(88, 0), x.lostOn(599, 0)};
+    Due.row("COMING: each of them once", often, 1, 1, 1, 1);
+    Due.is("COMING: the next was never laid", x.lostOn(600, 0), 0);
   }
 
   private static void giving() {
